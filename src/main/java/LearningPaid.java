@@ -403,9 +403,8 @@ public final class LearningPaid {
         int last = courseOf(joined).last;
         putNamesOf(joined);
         int back = clipped(byRule(BACK, last), MOST_DUE);
-        int cap = Math.max(byRule(CAP, last), 0);
-        int left = Math.max(cap - backIn(of.firm, last / YEAR), 0);
-        return Math.min(back, left);
+        int left = byRule(CAP, last) - backIn(of.firm, last / YEAR);
+        return Math.min(back, Math.max(left, 0));
     }
 
     private int dueIfLeft(int hand) {
@@ -537,7 +536,7 @@ public final class LearningPaid {
             case 6: return now.joins;
             case 7: return orderClaimed();
             case 8: return reader.length;
-            default: return what >= 10 && isCourse(what - 10) ? seatsLeft(what - 10) : NONE;
+            default: return isCourse(what - 10) ? seatsLeft(what - 10) : NONE;
         }
     }
 
@@ -1358,7 +1357,7 @@ public final class LearningPaid {
         }
 
         private void goOut(int operator) {
-            addOperator(operator);
+            into.add(Text.FIRST_OPERATOR + operator);
             open--;
         }
 
@@ -1394,7 +1393,6 @@ public final class LearningPaid {
         /** Cuts the tape into TOKENS; there are never more of them than bytes. */
         private void scan() {
             at = 0;
-            tokens = 0;
             for (int n = 0; n <= TAPE; n++) {
                 while (at < length && (tape[at] == ' ' || tape[at] == '\n')) {
                     at++;

@@ -379,6 +379,10 @@ public final class PromiseTests {
         fault("levy ();", 1, 6);
         fault("levy 1);", 1, 6);
         fault("levy min 1;", 1, 9);
+        fault("levy min;", 1, 8);
+        fault("levy max", 1, 8);
+        fault("levy min+1;", 1, 8);
+        fault("levy 1+max*2;", 1, 10);
         fault("levy min(1;", 1, 10);
         fault("levy min(1);", 1, 10);
         fault("levy min(1,2,3);", 1, 12);
@@ -462,11 +466,74 @@ public final class PromiseTests {
         // The first fault as tokens are come to.
         fault("levy age 10000;", 5, 5);
         fault("levy 10000 age;", 2, 5);
+        bytesThatAreNone();
+        leftFromAhead();
         LearningPaid x = new LearningPaid();
         Checks.text(x, "levy;");
         Checks.text(x, "levy 1;");
         due("of the latest text", x.fault(0), 0);
         due("of the latest text, place", x.fault(1), NONE);
+    }
+
+    private static void bytesThatAreNone() {
+        for (int b = 0; b < 256; b++) {
+            char c = (char) b;
+            if ("<>=#+-*/(),; \n".indexOf(c) < 0 && !(c >= '0' && c <= '9') && !(c >= 'a' && c <= 'z')
+                    && !(c >= 'A' && c <= 'Z')) {
+                fault(c + "", 1, 0);
+                fault("levy " + c + ";", 1, 5);
+                fault("levy 1 " + c + " 1;", 1, 7);
+                fault("levy 1" + c + ";", 1, 6);
+                fault("member 1" + c + "1;", 1, 8);
+                fault("member 1<1 " + c + "1<1;", 1, 11);
+                fault("le" + c + "vy 1;", 1, 0);
+                fault("proof 1" + c, 1, 7);
+            }
+        }
+        StringBuilder most = new StringBuilder();
+        for (int i = 0; i < 300; i++) {
+            most.append(';');
+        }
+        fault(most.toString(), 1, 0);
+        most.replace(0, 5, "levy ");
+        fault(most.toString(), 1, 5);
+        fault(("levy " + "1+".repeat(148)).substring(0, 300), 1, 300);
+    }
+
+    /** What stood on the tape, or came of a text, ahead of this one. */
+    private static void leftFromAhead() {
+        LearningPaid x = new LearningPaid();
+        Checks.tape(x, "levy 1 23;wages<=");
+        x.end(8);
+        due("beyond the end", x.text(), NONE);
+        due("beyond the end, fault", x.fault(0), 1);
+        due("beyond the end, place", x.fault(1), 7);
+        Checks.tape(x, "levy 12345");
+        x.end(9);
+        x.text();
+        due("a number's digits beyond the end", x.fault(1), 9);
+        Checks.tape(x, "levy wagesx");
+        x.end(10);
+        x.text();
+        due("a word's letters beyond the end", x.fault(1), 10);
+        Checks.tape(x, "member 1<=");
+        x.end(9);
+        x.text();
+        due("a sign's second byte beyond the end", x.fault(1), 9);
+        Checks.tape(x, "levy 1  ;");
+        x.end(7);
+        x.text();
+        due("blanks beyond the end", x.fault(1), 7);
+        Checks.text(x, "levy (((((((((((");
+        due("deep", x.fault(0), 3);
+        due("not as deep", Checks.text(x, "levy ((((((((1))))))));"), 0);
+        x = withFirms(1);
+        for (int i = 0; i < 5; i++) {
+            Checks.text(x, "levy " + "1+".repeat(140) + "+;");
+        }
+        rule(x, "member 1=1; levy " + "2+".repeat(100) + "2;", 0);
+        x.months(1);
+        due("after long faulty ones", x.fund(), 202);
     }
 
     /** What a FIRM with two HANDS (WAGES 2400) owes in MONTH 1 by this SUM; it PAID 5 in MONTH 0. */
@@ -518,6 +585,11 @@ public final class PromiseTests {
         due("cut of a sum", owes("(9999*9999*10+9999*9999)/1000/1000"), 1000);
         due("cut of a difference", owes("(0-9999*9999*10-9999*9999)/1000/1000+2000"), 1000);
         due("cut, then less", owes("9999*9999*9999-9999*9999*9999"), 0);
+        due("just the most", isMember("1000*1000*1000=9999*9999*9999"), true);
+        due("just the most", isMember("1000*1000*1000+1=1000*1000*1000"), true);
+        due("just below it", isMember("1000*1000*1000-1<1000*1000*1000"), true);
+        due("just the least", isMember("-1000*1000*1000-1=-1000*1000*1000"), true);
+        due("just above it", isMember("-1000*1000*1000+1>-1000*1000*1000"), true);
         due("<", isMember("1<2"), true);
         due("<", isMember("2<2"), false);
         due(">", isMember("2>1"), true);
@@ -532,6 +604,12 @@ public final class PromiseTests {
         due("#", isMember("2#2"), false);
         due("not", isMember("not 1=1"), false);
         due("not not", isMember("not not 1=1"), true);
+        for (String not : new String[] {"1<1", "1>1", "1<=0", "0>=1", "1=0", "1#1"}) {
+            due("not " + not, isMember("not " + not), true);
+            due("not not " + not, isMember("not not " + not), false);
+            due(not + " or", isMember(not + " or 1=1"), true);
+            due(not + " and", isMember(not + " and 1=1"), false);
+        }
         due("not of one ASK", isMember("not 1=2 and 1=2"), false);
         due("not of one ASK", isMember("not 1=1 or 1=1"), true);
         due("and", isMember("1=1 and 1=2"), false);
@@ -542,6 +620,9 @@ public final class PromiseTests {
         due("and ahead of or", isMember("1=2 and 1=1 or 1=1"), true);
         due("and ahead of or", isMember("1=2 and 1=1 or 1=2 and 1=1 or 1=2"), false);
         due("or or", isMember("1=2 or 1=1 or 1=2"), true);
+        due("or or", isMember("1=1 or 1=2 or 1=2"), true);
+        due("or or", isMember("1=2 or 1=2 or 1=1"), true);
+        due("or or or", isMember("1=1 or 1=2 or 1=2 and 1=1 or 1=2"), true);
         due("or, and, or", isMember("1=2 or 1=1 and 1=1 or 1=2"), true);
         due("sums", isMember("1+1=4/2"), true);
         String deep = "1=2 or 1=1 and 9<";
@@ -776,6 +857,19 @@ public final class PromiseTests {
         due("given up", x.giveUp(0), true);
         due("still 120", x.join(0, 6), NONE);
         due("all", x.about(6), 120);
+        due("has", x.has(59, 0, 599), 0);
+        due("bound", x.bound(59), 0);
+        due("goes", x.go(59, NONE), 0);
+        due("way", x.way(58, 0, 0), 597);
+        due("back", x.firmOf(0, 49, 3), 0);
+        due("wages", x.firmOf(0, 49, 0), 590);
+        due("trainer", x.trainer(0, 0), 0);
+        due("seats", x.about(15), 0);
+        due("the last", x.joined(119, 1), 5);
+        for (int i = 7; i < 24; i++) {
+            x.course(0, 0, 1, 1, 1, 9, 9, 1, 0);
+        }
+        due("way by one of 24", x.way(58, 1, 0), 9);
         x = withFirms(1);
         x.hand(20, 0, 10, 0);
         x.course(0, 0, 10, 20, 10, 599, 599, 0, 0);
@@ -1061,6 +1155,16 @@ public final class PromiseTests {
         due("marked", x.marked(2, 60), 1);
         due("anew", x.has(0, 4, 9), 1);
         due("lapsed again", x.has(0, 4, 10), 0);
+        x.course(0, 0, 1, 1, 1, 7, 7, 0, 0);
+        x.course(0, 0, 1, 1, 1, 8, 8, 7, 0);
+        x.join(1, 5);
+        x.join(1, 6);
+        go(x, 9);
+        x.marked(3, 60);
+        x.marked(4, 60);
+        due("paper 0", x.has(1, 0, 9), 1);
+        due("paper 7", x.has(1, 7, 9), 1);
+        due("paper 6", x.has(1, 6, 9), 0);
     }
 
     private static void bound() {
@@ -1308,6 +1412,40 @@ public final class PromiseTests {
         way(x, 0, 0, 2, 0);
         go(x, 600);
         way(x, 0, 0, 600, 0);
+        // What isn't one, where there is a way and what it has.
+        x = withFirms(1);
+        x.hand(20, 0, 10, 0);
+        x.course(0, 0, 1, 1, 1, 0, 0, 3, 0);
+        x.course(0, 0, 1, 1, 1, 5, 5, 0, 0);
+        x.join(0, 0);
+        x.months(1);
+        x.marked(0, 90);
+        way(x, 0, 3, 1, 0);
+        way(x, 0, 0, 5, 1);
+        for (int wrong : new int[] {-1, 2, Integer.MAX_VALUE, Integer.MIN_VALUE}) {
+            due("what " + wrong, x.way(0, 3, wrong), NONE);
+            due("what " + wrong, x.way(0, 0, wrong), NONE);
+        }
+        for (int wrong : new int[] {-1, 8, 32, 35, -29}) {
+            due("paper " + wrong, x.way(0, wrong, 0), NONE);
+        }
+        due("hand 1", x.way(1, 0, 0), NONE);
+        due("hand -1", x.way(-1, 0, 0), NONE);
+        x = withFirms(1);
+        x.hand(20, 0, 10, 0);
+        x.course(0, 0, 1, 1, 1, 5, 5, 0, 2);
+        way(x, 0, 0, NONE, NONE);
+        // Of ways that are over in the same month that with the fewest courses, whichever papers come on it.
+        x = withFirms(1);
+        x.hand(20, 0, 10, 0);
+        x.course(0, 0, 1, 1, 1, 9, 9, 7, 1 | 2);
+        x.course(0, 0, 1, 1, 1, 9, 9, 7, 4);
+        x.course(0, 0, 1, 1, 1, 0, 0, 0, 0);
+        x.course(0, 0, 1, 1, 1, 1, 1, 1, 0);
+        x.course(0, 0, 1, 1, 1, 3, 3, 2, 0);
+        way(x, 0, 7, 9, 2);
+        x.course(0, 0, 1, 1, 1, 8, 8, 7, 1 | 2 | 4);
+        way(x, 0, 7, 8, 4);
     }
 
     private static void places(LearningPaid x, int coins, int worth, int cost, int... chosen) {
@@ -1386,6 +1524,11 @@ public final class PromiseTests {
             x.trade(trade, 50, 1, 100);
         }
         due("most of all", x.proves(2000, 1, 1000), (2000 + 8 * 50 * (100000L - 1)) / 1000);
+        x = new LearningPaid();
+        x.trade(0, 2, 10, 1);
+        due("none is worth it", x.proves(7, 1, 1), 7);
+        x.trade(1, 3, 10, 10);
+        due("just worth it", x.proves(7, 1, 1), 7);
     }
 
     private static void result() {
@@ -1466,6 +1609,21 @@ public final class PromiseTests {
         due("20 choices, 2 like", x.trial(63, 7, 1), 2);
         x = withFirms(4);
         due("all are like 0", x.trial(15, 3, 1), 6);
+        // 6 of 120 is just beyond chance: the first, and two of four that are alike.
+        x = withFirms(10);
+        for (int firm = 0; firm < 5; firm++) {
+            x.result(firm, firm == 0 ? 100 : 10);
+        }
+        due("6 of 120: like", x.trial(0x3ff, 7, 1), 6);
+        due("6 of 120: choices", x.trial(0x3ff, 7, 2), 120);
+        due("6 of 120", x.trial(0x3ff, 7, 3), 1);
+        int[] many = {-4, 2, -7, 2, -5, 2, -3, 5, 3, 5, 2, 9};
+        x = withFirms(12);
+        for (int firm = 0; firm < 12; firm++) {
+            x.result(firm, many[firm]);
+        }
+        due("48 of 924: like", x.trial(0xfff, 0x3f, 1), 48);
+        due("48 of 924 is just not beyond chance", x.trial(0xfff, 0x3f, 3), 0);
     }
 
     private static void drawn() {
@@ -1584,6 +1742,13 @@ public final class PromiseTests {
         due("still other", x.check(0), 1);
         due("by the other", x.alter(0, true, 2), true);
         due("nothing is other", x.check(0), 0);
+        x.months(1);
+        x.sheet(0);
+        x.alter(0, false, 7);
+        x.alter(0, false, 2);
+        due("still other", x.check(1), 0);
+        x.alter(0, false, 5);
+        due("nothing is other", x.check(0), 0);
     }
 
     private static void check() {
@@ -1603,6 +1768,8 @@ public final class PromiseTests {
         due("by a claim", x.check(0), 1);
         due("of firm 0", x.check(1), 0);
         due("back", x.check(2), 1);
+        due("what -1 of one", x.check(-1), NONE);
+        due("what 3 of one", x.check(3), NONE);
         x.months(1);
         due("by levies of two firms too", x.check(0), 3);
         due("no one firm", x.check(1), NONE);
@@ -1692,6 +1859,50 @@ public final class PromiseTests {
         due("joined anew", x.join(1, 3), NONE);
         due("back", x.back(), 4);
         due("all is so again", java.util.Arrays.equals(then, tell(x)), true);
+        x = withFirms(20);
+        rule(x, "stay 10;", 0);
+        x.hand(20, 0, 0, 0);
+        x.hand(20, 0, 0, 0);
+        x.course(0, 0, 1, 3, 100, 0, 0, 0, 0);
+        x.course(0, 0, 1, 3, 100, 9, 9, 0, 0);
+        x.join(0, 0);
+        x.join(1, 0);
+        x.months(1);
+        x.marked(0, 60);
+        x.marked(1, 60);
+        x.join(0, 1);
+        x.image();
+        due("by the last firm", x.go(0, 19), 100);
+        due("by itself", x.go(1, NONE), 100);
+        x.giveUp(2);
+        x.back();
+        due("nothing owed by the last firm", x.owed(0, 19), 0);
+        due("nor by itself", x.handOf(1, 4), 0);
+        due("not given up", x.joined(2, 6), 0);
+        due("bound as ahead of it", x.bound(0), 100);
+        x.go(0, 19);
+        x.go(1, NONE);
+        x.giveUp(2);
+        x.image();
+        x.back();
+        due("owed by the last firm", x.owed(0, 19), 100);
+        due("by itself", x.handOf(1, 4), 100);
+        due("given up", x.joined(2, 6), 1);
+        // What other months left behind doesn't count for a firm that wasn't there then.
+        x = withFirms(1);
+        rule(x, "levy 5;", 0);
+        x.image();
+        x.firm();
+        x.months(3);
+        due("paid", x.firmOf(1, 0, 2), 15);
+        x.back();
+        x.months(3);
+        x.firm();
+        due("was not there then", x.firmOf(1, 0, 2), 0);
+        rule(x, "levy 1+paid;", 0);
+        x.months(1);
+        due("by paid", x.firmOf(1, 0, 2), 1);
+        due("tried", x.tried(1, 0), 1 + 6 + 11 + 16 + 1);
     }
 
     /** All that a board tells of what an image holds. */
