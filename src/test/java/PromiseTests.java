@@ -366,6 +366,10 @@ public final class PromiseTests {
         fault("lev 1;", 1, 0);
         fault("wages 1;", 1, 0);
         fault("membermember 1=1;", 1, 0);
+        for (String word : new String[] {"members", "memberss", "maxmaxm", "maximum", "m", "aVeryLongWordThatIsNone"}) {
+            fault(word + " 1;", 1, 0);
+            fault("levy " + word + ";", 1, 5);
+        }
         fault("levy wage;", 1, 5);
         fault("levy wagess;", 1, 5);
         fault("levy ages;", 1, 5);
