@@ -1811,8 +1811,18 @@ public final class PromiseTests {
         due("and is as it was", x.fund(), 3 * 34);
     }
 
-    private static void back() {
-        LearningPaid x = board();
+    private static void boardOfBack(LearningPaid x) {
+        for (int i = 0; i < 3; i++) {
+            x.firm();
+        }
+        x.hand(30, 2, 1600, 0);
+        x.hand(40, 3, 800, 0);
+        x.hand(20, 2, 1000, 1);
+        x.hand(50, 1, 100, NONE);
+        x.course(3, 2, 80, 2, 600, 2, 3, 4, 0);
+        x.course(3, 2, 40, 5, 300, 5, 6, 5, 16);
+        x.course(0, 1, 10, 5, 100, 3, 4, 1, 0);
+        x.course(1, 1, 10, 5, 100, 4, 4, 2, 0);
         rule(x, "stay 20; levy 100;", 0);
         x.trade(0, 3, 2, 5);
         x.result(0, 7);
@@ -1822,7 +1832,10 @@ public final class PromiseTests {
         x.marked(0, 60);
         x.paper(4, 9);
         x.image();
-        long[] then = tell(x);
+    }
+
+    private static void muchElse(LearningPaid x) {
+        boardOfBack(x);
         x.trade(0, 9, 1, 9);
         x.result(0, 9);
         x.paper(4, 1);
@@ -1843,9 +1856,11 @@ public final class PromiseTests {
         Checks.tape(x, "levy");
         x.sheet(0);
         x.alter(7, true, 1);
-        Checks.isTrue("much is other", !java.util.Arrays.equals(then, tell(x)));
+    }
+
+    private static void muchAnew(LearningPaid x) {
+        muchElse(x);
         due("back", x.back(), 4);
-        due("all is so again", java.util.Arrays.equals(then, tell(x)), true);
         due("but the tape", x.about(8), 4);
         due("but the latest fault", x.fault(0), 1);
         due("but its place", x.fault(1), 5);
@@ -1861,8 +1876,22 @@ public final class PromiseTests {
         x.months(1);
         due("by it", x.firmOf(3, 0, 2), 3);
         due("joined anew", x.join(1, 3), NONE);
-        due("back", x.back(), 4);
-        due("all is so again", java.util.Arrays.equals(then, tell(x)), true);
+    }
+
+    private static void back() {
+        State then = State.held(PromiseTests::boardOfBack);
+        Checks.isTrue("much is other", !State.held(PromiseTests::muchElse).otherThan(then).isEmpty());
+        State back = State.held(y -> {
+            muchElse(y);
+            y.back();
+        });
+        Checks.isTrue("all is so again, but " + back.otherThan(then), back.otherThan(then).isEmpty());
+        back = State.held(y -> {
+            muchAnew(y);
+            y.back();
+        });
+        Checks.isTrue("all is so once more, but " + back.otherThan(then), back.otherThan(then).isEmpty());
+        LearningPaid x;
         x = withFirms(20);
         rule(x, "stay 10;", 0);
         x.hand(20, 0, 0, 0);
@@ -1907,51 +1936,6 @@ public final class PromiseTests {
         x.months(1);
         due("by paid", x.firmOf(1, 0, 2), 1);
         due("tried", x.tried(1, 0), 1 + 6 + 11 + 16 + 1);
-    }
-
-    /** All that a board tells of what an image holds. */
-    private static long[] tell(LearningPaid x) {
-        long[] told = new long[800];
-        int n = 0;
-        for (int what = 0; what < 40; what++) {
-            if (what != 8) {
-                told[n++] = x.about(what);
-            }
-        }
-        told[n++] = x.fund();
-        for (int firm = 0; firm < 5; firm++) {
-            for (int what = 0; what < 4; what++) {
-                told[n++] = x.firmOf(firm, 0, what);
-            }
-            for (int by = -1; by < 5; by++) {
-                told[n++] = x.owed(firm, by);
-            }
-        }
-        for (int hand = 0; hand < 6; hand++) {
-            for (int what = 0; what < 5; what++) {
-                told[n++] = x.handOf(hand, what);
-            }
-            told[n++] = x.bound(hand);
-            for (int paper = 0; paper < 8; paper++) {
-                told[n++] = x.has(hand, paper, 10);
-                told[n++] = x.way(hand, paper, 0);
-            }
-        }
-        for (int joined = 0; joined < 4; joined++) {
-            for (int what = 0; what < 9; what++) {
-                told[n++] = x.joined(joined, what);
-            }
-        }
-        for (int sort = 0; sort < 7; sort++) {
-            told[n++] = x.ruled(sort, 9, 9);
-        }
-        for (int what = -2; what < 8; what++) {
-            told[n++] = x.places(11, what);
-        }
-        told[n++] = x.trial(7, 1, 0);
-        told[n++] = x.tried(0, 0);
-        told[n++] = x.tried(0, 1);
-        return told;
     }
 
     private static void about() {

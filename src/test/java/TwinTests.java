@@ -116,7 +116,7 @@ public final class TwinTests {
             if (!putText(anyText())) {
                 return false;
             }
-            int texts = x.about(4);
+            int texts = twin.about(4);
             if (!call("tried", texts - 1, 0) || !call("tried", texts - 1, 1) || texts == 10 && !call("back")) {
                 return false;
             }
@@ -196,6 +196,9 @@ public final class TwinTests {
     }
 
     private boolean call(String name, Object... args) throws ReflectiveOperationException {
+        if (told.size() >= CALLS) {
+            return true;
+        }
         Object mine;
         try {
             mine = MINE.get(name).invoke(x, args);
