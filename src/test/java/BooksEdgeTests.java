@@ -1,9 +1,5 @@
 /** Each sentence of promises 24 to 27, 35 to 37, 40 and 41, and on WAGES and levies, that names a boundary case. */
-public final class BooksEdgeTests {
-    private static final int NONE = LearningPaid.NONE;
-    private static final int LEAST = Integer.MIN_VALUE;
-    private static final int MOST = Integer.MAX_VALUE;
-
+public final class BooksEdgeTests extends Edges {
     public static void main(String[] args) {
         months();
         eachFirm();
@@ -24,24 +20,12 @@ public final class BooksEdgeTests {
         Checks.finish("BooksEdgeTests");
     }
 
-    private static void sentence(String words) {
-        Edges.sentence(words);
-    }
-
-    private static void due(String call, long got, long want) {
-        Edges.due(call, got, want);
-    }
-
-    private static void due(String call, boolean got, boolean want) {
-        Edges.due(call, got, want);
-    }
-
     // ---- Promise 24: months, and what goes by ----
 
     private static void months() {
         sentence("24: n MONTHS go by (1 .. 60): the clock; NONE for others");
-        LearningPaid x = Edges.withFirms(1);
-        Edges.rule(x, "levy 1;", 0);
+        LearningPaid x = withFirms(1);
+        rule(x, "levy 1;", 0);
         for (int n : new int[] {LEAST, -1, 0, 61, 62, 600, MOST}) {
             due("months(" + n + ")", x.months(n), NONE);
             due("the clock stays", x.about(0), 0);
@@ -52,7 +36,7 @@ public final class BooksEdgeTests {
         due("months(60)", x.months(60), 61);
         due("sixty went by", x.fund(), 61);
         sentence("24: NONE .. beyond 600");
-        Edges.go(x, 541);
+        go(x, 541);
         due("to 601", x.months(60), NONE);
         due("the clock stays", x.about(0), 541);
         due("nothing is levied", x.fund(), 541);
@@ -61,13 +45,13 @@ public final class BooksEdgeTests {
         due("to 601", x.months(1), NONE);
         due("the clock", x.about(0), 600);
         x = new LearningPaid();
-        Edges.go(x, 540);
+        go(x, 540);
         due("to 600 at once", x.months(60), 600);
     }
 
     private static void eachFirm() {
         sentence("III: A MONTH goes by: each FIRM: WAGES: of all its HANDS");
-        LearningPaid x = Edges.withFirms(3);
+        LearningPaid x = withFirms(3);
         x.hand(20, 0, 1000, 0);
         x.hand(20, 0, 2500, 0);
         x.hand(20, 0, 700, 2);
@@ -84,30 +68,30 @@ public final class BooksEdgeTests {
         due("firm 2, with another", x.firmOf(2, 0, 2), 7 + 32);
         due("the fund", x.fund(), 42 + 32);
         sentence("III: levy wages / 100 of them together, cut");
-        x = Edges.withFirms(1);
+        x = withFirms(1);
         x.hand(20, 0, 150, 0);
         x.hand(20, 0, 150, 0);
         x.months(1);
         due("3, not 1 and 1", x.fund(), 3);
-        x = Edges.withFirms(1);
+        x = withFirms(1);
         x.hand(20, 0, 99, 0);
         x.months(1);
         due("99", x.fund(), 0);
         sentence("III: FIRMS that are there as the MONTH goes by");
-        x = Edges.withFirms(1);
-        Edges.rule(x, "levy 5;", 0);
+        x = withFirms(1);
+        rule(x, "levy 5;", 0);
         x.months(2);
         x.firm();
         due("nothing of what went by", x.firmOf(1, 0, 2), 0);
         x.months(1);
         due("of one", x.firmOf(1, 0, 2), 5);
-        x = Edges.withFirms(20);
-        Edges.rule(x, "levy 5;", 0);
+        x = withFirms(20);
+        rule(x, "levy 5;", 0);
         x.months(1);
         due("of twenty", x.fund(), 100);
         due("of the last", x.firmOf(19, 0, 2), 5);
         sentence("III: all 60 HANDS at one FIRM");
-        x = Edges.withFirms(1);
+        x = withFirms(1);
         for (int i = 0; i < 60; i++) {
             x.hand(20, 0, 5000, 0);
         }
@@ -118,8 +102,8 @@ public final class BooksEdgeTests {
     }
 
     private static long levied(String levy) {
-        LearningPaid x = Edges.withFirms(1);
-        Edges.rule(x, "levy " + levy + ";", 0);
+        LearningPaid x = withFirms(1);
+        rule(x, "levy " + levy + ";", 0);
         x.months(1);
         due("paid by " + levy, x.firmOf(0, 0, 2), x.fund());
         return x.fund();
@@ -139,15 +123,15 @@ public final class BooksEdgeTests {
         sentence("III: if member is so");
         due("so", levied("7; member 1=1"), 7);
         due("not so", levied("7; member 1=2"), 0);
-        LearningPaid x = Edges.withFirms(3);
+        LearningPaid x = withFirms(3);
         x.hand(20, 0, 0, 1);
         x.hand(20, 0, 100, 2);
-        Edges.rule(x, "levy 7; member heads>0;", 0);
+        rule(x, "levy 7; member heads>0;", 0);
         x.months(1);
         due("without heads", x.firmOf(0, 0, 2), 0);
         due("with one", x.firmOf(1, 0, 2), 7);
         due("with one", x.firmOf(2, 0, 2), 7);
-        Edges.rule(x, "member wages>0;", 0);
+        rule(x, "member wages>0;", 0);
         x.months(1);
         due("without wages", x.firmOf(1, 0, 2), 7);
         due("with wages", x.firmOf(2, 0, 2), 14);
@@ -155,8 +139,8 @@ public final class BooksEdgeTests {
 
     private static void namesOfFirms() {
         sentence("III: paid (PAID in the YEAR of the month at hand)");
-        LearningPaid x = Edges.withFirms(2);
-        Edges.rule(x, "levy 1+paid;", 0);
+        LearningPaid x = withFirms(2);
+        rule(x, "levy 1+paid;", 0);
         x.months(1);
         due("month 0", x.firmOf(0, 0, 2), 1);
         x.months(1);
@@ -169,16 +153,16 @@ public final class BooksEdgeTests {
         x.months(1);
         due("month 12 begins anew", x.firmOf(0, 1, 2), 1);
         due("year 0 stays", x.firmOf(0, 0, 2), 4095);
-        x = Edges.withFirms(1);
-        Edges.rule(x, "levy 1+paid;", 0);
+        x = withFirms(1);
+        rule(x, "levy 1+paid;", 0);
         x.months(14);
         due("all at once too", x.fund(), 4095 + 3);
         sentence("III: month");
-        x = Edges.withFirms(1);
-        Edges.rule(x, "levy month;", 0);
+        x = withFirms(1);
+        rule(x, "levy month;", 0);
         x.months(4);
         due("0 + 1 + 2 + 3", x.fund(), 6);
-        Edges.go(x, 599);
+        go(x, 599);
         long fund = x.fund();
         x.months(1);
         due("599", x.fund(), fund + 599);
@@ -186,10 +170,10 @@ public final class BooksEdgeTests {
 
     private static void rulesOfTheMonth() {
         sentence("III: A MONTH m goes by (as KNOWN in m): by THE RULES of m");
-        LearningPaid x = Edges.withFirms(1);
-        Edges.rule(x, "levy 10;", 0);
-        Edges.rule(x, "levy 20;", 3);
-        Edges.rule(x, "member month=4;", 4);
+        LearningPaid x = withFirms(1);
+        rule(x, "levy 10;", 0);
+        rule(x, "levy 20;", 3);
+        rule(x, "member month=4;", 4);
         x.months(3);
         due("months 0 to 2", x.fund(), 30);
         x.months(1);
@@ -199,7 +183,7 @@ public final class BooksEdgeTests {
         x.months(1);
         due("month 5", x.fund(), 70);
         sentence("III: .. a RULING that is told as the clock is m holds for m");
-        Edges.rule(x, "member month>5;", 6);
+        rule(x, "member month>5;", 6);
         x.months(1);
         due("month 6", x.fund(), 90);
     }
@@ -208,7 +192,7 @@ public final class BooksEdgeTests {
 
     private static void firmOfNumbers() {
         sentence("25: NONE for others: FIRMS");
-        LearningPaid x = Edges.withFirms(2);
+        LearningPaid x = withFirms(2);
         for (int what = 0; what < 4; what++) {
             due("-1, " + what, x.firmOf(-1, 0, what), NONE);
             due("1, " + what, x.firmOf(1, 0, what), 0);
@@ -244,18 +228,18 @@ public final class BooksEdgeTests {
 
     private static void paidByYear() {
         sentence("25: 2 PAID in a YEAR; Terms: YEAR of a MONTH: MONTH / 12");
-        LearningPaid x = Edges.withFirms(1);
-        Edges.rule(x, "levy 1+month/12;", 0);
+        LearningPaid x = withFirms(1);
+        rule(x, "levy 1+month/12;", 0);
         int[][] want = {{0, 0, 0, 0}, {1, 1, 0, 0}, {11, 11, 0, 0}, {12, 12, 0, 0}, {13, 12, 2, 0}, {23, 12, 22, 0},
             {24, 12, 24, 0}, {25, 12, 24, 3}, {36, 12, 24, 36}};
         for (int[] w : want) {
-            Edges.go(x, w[0]);
+            go(x, w[0]);
             for (int year = 0; year < 3; year++) {
                 due("year " + year + " at " + w[0], x.firmOf(0, year, 2), w[1 + year]);
             }
             due("all at " + w[0], x.fund(), w[1] + w[2] + w[3]);
         }
-        Edges.go(x, 588);
+        go(x, 588);
         due("the last YEAR", x.firmOf(0, 49, 2), 0);
         x.months(1);
         due("the last YEAR", x.firmOf(0, 49, 2), 50);
@@ -263,15 +247,15 @@ public final class BooksEdgeTests {
         due("the last YEAR", x.firmOf(0, 49, 2), 600);
         due("the one ahead", x.firmOf(0, 48, 2), 588);
         sentence("25: 3 BACK for COURSES with LAST in it");
-        x = Edges.withFirms(2);
-        Edges.rule(x, "levy 9000; cap 9999; proof 60;", 0);
+        x = withFirms(2);
+        rule(x, "levy 9000; cap 9999; proof 60;", 0);
         x.hand(20, 0, 100, 0);
         int[][] courses = {{0, 0}, {11, 11}, {12, 12}, {22, 24}};
         for (int i = 0; i < 4; i++) {
             x.course(0, 0, 10 + i, 5, 1, courses[i][0], courses[i][1], 0, 0);
             x.join(0, i);
         }
-        Edges.go(x, 30);
+        go(x, 30);
         for (int i = 0; i < 4; i++) {
             x.marked(i, 90);
             due("claim", x.claim(i), 10 + i);
@@ -287,7 +271,7 @@ public final class BooksEdgeTests {
 
     private static void handOf() {
         sentence("26: 0 AGE, 1 TRADE, 2 WAGE, 3 FIRM (NONE), 4 what it owes by itself; NONE for others");
-        LearningPaid x = Edges.withFirms(2);
+        LearningPaid x = withFirms(2);
         x.hand(14, 7, 5000, 1);
         x.hand(80, 0, 0, NONE);
         long[][] want = {{14, 7, 5000, 1, 0}, {80, 0, 0, NONE, 0}};
@@ -321,7 +305,7 @@ public final class BooksEdgeTests {
             due("0, " + what, x.trainer(0, what), NONE);
         }
         sentence("27: how many were MARKED in its COURSES, PASSED, their MARKS together");
-        x = Edges.withFirms(1);
+        x = withFirms(1);
         for (int i = 0; i < 4; i++) {
             x.hand(20, 0, 100, 0);
         }
@@ -354,7 +338,7 @@ public final class BooksEdgeTests {
 
     private static void sheet() {
         sentence("35: THE SHEET of a YEAR is taken: true. False for others (YEAR 0 .. 49)");
-        LearningPaid x = Edges.withFirms(1);
+        LearningPaid x = withFirms(1);
         for (int year : new int[] {-1, 50, LEAST, MOST}) {
             due("year " + year, x.sheet(year), false);
             due("none was taken", x.check(0), NONE);
@@ -365,7 +349,7 @@ public final class BooksEdgeTests {
         due("year 49", x.sheet(49), true);
         due("it was", x.check(0), 0);
         sentence("IV: SHEET of a YEAR: PAID and BACK of FIRMS");
-        x = Edges.passed("levy 99; cap 99;");
+        x = passed("levy 99; cap 99;");
         x.sheet(0);
         due("as they are", x.check(0), 0);
         x.claim(0);
@@ -379,7 +363,7 @@ public final class BooksEdgeTests {
         due("of another YEAR", x.check(0), 0);
         x.appeal(0);
         due("of another YEAR", x.check(0), 0);
-        Edges.go(x, 12);
+        go(x, 12);
         due("of another YEAR", x.check(0), 0);
         x.months(1);
         due("of that YEAR", x.check(0), 3);
@@ -390,7 +374,7 @@ public final class BooksEdgeTests {
 
     private static void alter() {
         sentence("36: False .. none was taken");
-        LearningPaid x = Edges.withFirms(1);
+        LearningPaid x = withFirms(1);
         due("PAID", x.alter(0, false, 1), false);
         due("BACK", x.alter(0, true, 1), false);
         x.sheet(50);
@@ -441,7 +425,7 @@ public final class BooksEdgeTests {
 
     private static void check() {
         sentence("37: NONE for others, or none was taken");
-        LearningPaid x = Edges.withFirms(3);
+        LearningPaid x = withFirms(3);
         for (int what : new int[] {-1, 0, 1, 2, 3}) {
             due("none was taken: " + what, x.check(what), NONE);
         }
@@ -473,7 +457,7 @@ public final class BooksEdgeTests {
 
     private static void placesOfSheet() {
         sentence("37: 0 how many places are other: up to 40");
-        LearningPaid x = Edges.withFirms(1);
+        LearningPaid x = withFirms(1);
         x.sheet(0);
         for (int firm = 0; firm < 20; firm++) {
             x.alter(firm, false, 1);
@@ -482,8 +466,8 @@ public final class BooksEdgeTests {
             due("places", x.check(0), 2 * firm + 2);
         }
         sentence("IV: FIRMS 0 .. 19 (0 of none)");
-        x = Edges.withFirms(1);
-        Edges.rule(x, "levy 5;", 0);
+        x = withFirms(1);
+        rule(x, "levy 5;", 0);
         x.months(1);
         x.sheet(0);
         due("FIRMS 1 to 19 are none", x.check(0), 0);
@@ -492,7 +476,7 @@ public final class BooksEdgeTests {
         x.months(1);
         due("now both do", x.check(0), 2);
         sentence("IV: CHECKED against the books as they are then");
-        x = Edges.passed("levy 64; cap 99;");
+        x = passed("levy 64; cap 99;");
         x.sheet(0);
         x.claim(0);
         due("by a claim: BACK 20", x.check(0), 1);
@@ -502,8 +486,8 @@ public final class BooksEdgeTests {
         due("altered to 20", x.check(0), 0);
         x.appeal(0);
         due("by an appeal", x.check(0), 1);
-        x = Edges.withFirms(1);
-        Edges.rule(x, "levy 64;", 0);
+        x = withFirms(1);
+        rule(x, "levy 64;", 0);
         x.months(1);
         x.sheet(0);
         x.months(1);
@@ -517,7 +501,7 @@ public final class BooksEdgeTests {
 
     private static void aboutNumbers() {
         sentence("40: NONE for others");
-        LearningPaid x = Edges.crowd(1, 1, 24);
+        LearningPaid x = crowd(1, 1, 24);
         for (int what : new int[] {-1, 9, 34, 35, LEAST, LEAST + 9, LEAST + 10, MOST, MOST - 1}) {
             due("about " + what, x.about(what), NONE);
         }
@@ -525,7 +509,7 @@ public final class BooksEdgeTests {
         for (int course = 0; course < 24; course++) {
             due("course " + course, x.about(10 + course), 20);
         }
-        x = Edges.crowd(1, 1, 2);
+        x = crowd(1, 1, 2);
         due("course 1, the last", x.about(11), 20);
         due("course 2, which isn't one", x.about(12), NONE);
         due("course 23", x.about(33), NONE);
@@ -534,7 +518,7 @@ public final class BooksEdgeTests {
 
     private static void about() {
         sentence("40: 0 the clock, 1 FIRMS, 2 HANDS, 3 COURSES, 4 TEXTS, 5 RULINGS, 6 JOINED ones, 7 those CLAIMED, 8 bytes");
-        LearningPaid x = Edges.crowd(2, 6, 4);
+        LearningPaid x = crowd(2, 6, 4);
         Checks.text(x, "levy 900; cap 999;");
         Checks.text(x, "");
         Checks.text(x, "stay 0;");
@@ -567,20 +551,20 @@ public final class BooksEdgeTests {
 
     private static void fund() {
         sentence("41: THE FUND: beyond 32 bits");
-        LearningPaid x = Edges.withFirms(20);
-        Edges.rule(x, "levy 1000*1000; member month<150;", 0);
-        Edges.go(x, 107);
+        LearningPaid x = withFirms(20);
+        rule(x, "levy 1000*1000; member month<150;", 0);
+        go(x, 107);
         due("2140000000", x.fund(), 2140000000L);
         x.months(1);
         due("2160000000", x.fund(), 2160000000L);
-        Edges.go(x, 215);
+        go(x, 215);
         due("3000000000", x.fund(), 3000000000L);
-        x = Edges.withFirms(20);
-        Edges.rule(x, "levy 1000*1000; cap 9999*9999; back 1000*1000;", 0);
+        x = withFirms(20);
+        rule(x, "levy 1000*1000; cap 9999*9999; back 1000*1000;", 0);
         x.hand(20, 0, 0, 0);
-        Edges.course(x, 599, 599);
+        course(x, 599, 599);
         x.join(0, 0);
-        Edges.go(x, 600);
+        go(x, 600);
         due("all that can be", x.fund(), 12000000000L);
         x.marked(0, 90);
         due("claimed from it", x.claim(0), 1000000);

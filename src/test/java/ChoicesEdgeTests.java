@@ -1,9 +1,6 @@
 /** Each sentence of promises 28 to 34, and of part IV that they use, that names a boundary case. */
-public final class ChoicesEdgeTests {
-    private static final int NONE = LearningPaid.NONE;
+public final class ChoicesEdgeTests extends Edges {
     private static final int NO_TRIAL = -1000000;
-    private static final int LEAST = Integer.MIN_VALUE;
-    private static final int MOST = Integer.MAX_VALUE;
 
     public static void main(String[] args) {
         wayNumbers();
@@ -36,22 +33,10 @@ public final class ChoicesEdgeTests {
         Checks.finish("ChoicesEdgeTests");
     }
 
-    private static void sentence(String words) {
-        Edges.sentence(words);
-    }
-
-    private static void due(String call, long got, long want) {
-        Edges.due(call, got, want);
-    }
-
-    private static void due(String call, boolean got, boolean want) {
-        Edges.due(call, got, want);
-    }
-
     // ---- Promise 28: way ----
 
     private static LearningPaid withHand() {
-        LearningPaid x = Edges.withFirms(1);
+        LearningPaid x = withFirms(1);
         x.hand(20, 0, 100, 0);
         return x;
     }
@@ -106,9 +91,9 @@ public final class ChoicesEdgeTests {
         x = withHand();
         course(x, 599, 599, 0, 0);
         way(x, 0, 599, 1);
-        Edges.go(x, 599);
+        go(x, 599);
         way(x, 0, 599, 1);
-        Edges.go(x, 600);
+        go(x, 600);
         way(x, 0, NONE, NONE);
         sentence("IV: none ahead of the clock's MONTH, on the way too");
         x = withHand();
@@ -244,7 +229,7 @@ public final class ChoicesEdgeTests {
         x.paper(1, 4);
         way(x, 1, 8, 1);
         x.paper(1, 0);
-        Edges.go(x, 600);
+        go(x, 600);
         way(x, 1, 600, 0);
         x.paper(1, 120);
         way(x, 1, NONE, NONE);
@@ -290,7 +275,7 @@ public final class ChoicesEdgeTests {
 
     private static void wayAside() {
         sentence("IV: SEATS, and what it JOINED, aside");
-        LearningPaid x = Edges.withFirms(1);
+        LearningPaid x = withFirms(1);
         x.hand(20, 0, 100, 0);
         x.hand(20, 0, 100, 0);
         x.course(0, 0, 1, 1, 1, 3, 4, 1, 0);
@@ -304,7 +289,7 @@ public final class ChoicesEdgeTests {
         x.go(0, NONE);
         way(x, 1, 4, 1);
         sentence("28: of this HAND");
-        x = Edges.withFirms(1);
+        x = withFirms(1);
         x.hand(20, 0, 100, 0);
         x.hand(20, 0, 100, 0);
         course(x, 0, 0, 1, 0);
@@ -496,7 +481,7 @@ public final class ChoicesEdgeTests {
         due("b 1000", x.proves(2000, 1, 1000), 2);
         due("b 1001", x.proves(7, 1, 1001), NONE);
         due("a 0, b 0", x.proves(7, 0, 0), NONE);
-        for (int far : Edges.FAR) {
+        for (int far : new int[] {LEAST, MOST}) {
             due("a " + far, x.proves(7, far, 5), NONE);
             due("b " + far, x.proves(7, 5, far), NONE);
             due("coins " + far, x.proves(far, 5, 5), NONE);
@@ -555,7 +540,7 @@ public final class ChoicesEdgeTests {
 
     private static void result() {
         sentence("31: A RESULT of a FIRM: true. False for others");
-        LearningPaid x = Edges.withFirms(2);
+        LearningPaid x = withFirms(2);
         due("-1", x.result(-1, 5), false);
         due("1, the last", x.result(1, 5), true);
         due("2", x.result(2, 5), false);
@@ -573,7 +558,7 @@ public final class ChoicesEdgeTests {
         due("1000", x.result(1, 1000), true);
         due("it is so", x.trial(3, 2, 0), 1000);
         sentence("IV: a RESULT (at first 0)");
-        x = Edges.withFirms(20);
+        x = withFirms(20);
         for (int firm = 1; firm < 20; firm++) {
             due("of " + firm, x.trial(1 | 1 << firm, 1, 0), 0);
         }
@@ -585,7 +570,7 @@ public final class ChoicesEdgeTests {
 
     private static void trialNumbers() {
         sentence("32: 0 EFFECT, 1 LIKE, 2 how many choices, 3 BEYOND CHANCE. -1000000 for others");
-        LearningPaid x = Edges.withFirms(13);
+        LearningPaid x = withFirms(13);
         for (int what : new int[] {-1, 4, 5, LEAST, MOST}) {
             due("what " + what, x.trial(3, 1, what), NO_TRIAL);
         }
@@ -608,7 +593,7 @@ public final class ChoicesEdgeTests {
         due("firm 31", x.trial(1 | LEAST, 1, 0), NO_TRIAL);
         due("firm 20", x.trial(1 | 1 << 20, 1, 0), NO_TRIAL);
         due("all bits", x.trial(-1, 1, 0), NO_TRIAL);
-        x = Edges.withFirms(20);
+        x = withFirms(20);
         due("firm 19", x.trial(1 | 1 << 19, 1, 0), 0);
         due("firm 20", x.trial(1 | 1 << 20, 1, 0), NO_TRIAL);
         due("no FIRMS", new LearningPaid().trial(3, 1, 0), NO_TRIAL);
@@ -616,7 +601,7 @@ public final class ChoicesEdgeTests {
 
     private static void trialSets() {
         sentence("IV: some of them TREATED (one at least, one at least not)");
-        LearningPaid x = Edges.withFirms(4);
+        LearningPaid x = withFirms(4);
         due("none of three", x.trial(7, 0, 2), NO_TRIAL);
         due("one of three", x.trial(7, 4, 2), 3);
         due("two of three", x.trial(7, 6, 2), 3);
@@ -633,7 +618,7 @@ public final class ChoicesEdgeTests {
     }
 
     private static LearningPaid withResults(int... results) {
-        LearningPaid x = Edges.withFirms(results.length);
+        LearningPaid x = withFirms(results.length);
         for (int firm = 0; firm < results.length; firm++) {
             due("result", x.result(firm, results[firm]), true);
         }
@@ -674,7 +659,7 @@ public final class ChoicesEdgeTests {
         due("one of three: 9, 0, -9; of 5, 2, -1", withResults(5, 2, -1).trial(7, 4, 1), 2);
         sentence("IV: choices of as many TREATED");
         int[] choices = {12, 66, 220, 495, 792, 924, 792, 495, 220, 66, 12};
-        x = Edges.withFirms(12);
+        x = withFirms(12);
         for (int many = 1; many < 12; many++) {
             due(many + " of 12", x.trial(0xfff, (1 << many) - 1, 2), choices[many - 1]);
             due(many + " of 12, all like 0", x.trial(0xfff, (1 << many) - 1, 1), choices[many - 1]);
@@ -713,9 +698,9 @@ public final class ChoicesEdgeTests {
 
     /** Hands 0 to 7 that JOINED in this order and PASSED; of them these are CLAIMED, in this order. */
     private static LearningPaid claimed(int... claimed) {
-        LearningPaid x = Edges.withFirms(1);
-        Edges.rule(x, "levy 9000; cap 9999;", 0);
-        Edges.course(x, 0, 0);
+        LearningPaid x = withFirms(1);
+        rule(x, "levy 9000; cap 9999;", 0);
+        course(x, 0, 0);
         for (int i = 0; i < 8; i++) {
             x.hand(20, 0, 10, 0);
             x.join(i, 0);
@@ -810,7 +795,7 @@ public final class ChoicesEdgeTests {
 
     private static void triedNumbers() {
         sentence("34: NONE for others");
-        LearningPaid x = Edges.withFirms(1);
+        LearningPaid x = withFirms(1);
         due("0 of none", x.tried(0, 0), NONE);
         Checks.text(x, "levy 1;");
         Checks.text(x, "levy 2;");
@@ -831,7 +816,7 @@ public final class ChoicesEdgeTests {
 
     private static void triedLevies() {
         sentence("IV: TRIED: levies of all MONTHS, for all that is over");
-        LearningPaid x = Edges.withFirms(1);
+        LearningPaid x = withFirms(1);
         Checks.text(x, "levy 10;");
         due("none", x.tried(0, 0), 0);
         x.months(1);
@@ -844,7 +829,7 @@ public final class ChoicesEdgeTests {
         x.months(1);
         due("two of the last", x.tried(0, 0), 250);
         sentence("IV: TRIED: by the WAGES, heads .. of then");
-        x = Edges.withFirms(2);
+        x = withFirms(2);
         x.hand(20, 0, 700, 0);
         x.hand(20, 0, 60, 0);
         x.months(1);
@@ -870,14 +855,14 @@ public final class ChoicesEdgeTests {
         due("levy wages / 100, of members", x.tried(6, 0), 0 + 0 + 0 + 7 + 0 + 7);
         sentence("IV: TRIED: a TEXT in place of all RULINGS");
         x.ruling(2, 0);
-        Edges.rule(x, "levy 9999; member 1=1;", 0);
+        rule(x, "levy 9999; member 1=1;", 0);
         due("by it alone", x.tried(5, 0), 21);
         due("by it alone", x.tried(6, 0), 14);
         sentence("IV: TRIED: levy (0 at least, 1000000 at most)");
-        x = Edges.withFirms(20);
+        x = withFirms(20);
         Checks.text(x, "levy -5;");
         Checks.text(x, "levy 9999*9999*9999;");
-        Edges.go(x, 600);
+        go(x, 600);
         due("below 0", x.tried(0, 0), 0);
         due("as high as can be", x.tried(1, 0), 12000000000L);
         due("nothing is levied by it", x.fund(), 0);
@@ -885,8 +870,8 @@ public final class ChoicesEdgeTests {
 
     private static void triedPaid() {
         sentence("IV: TRIED: PAID, ahead of that MONTH in its YEAR, as it truly was");
-        LearningPaid x = Edges.withFirms(1);
-        Edges.rule(x, "levy 10;", 0);
+        LearningPaid x = withFirms(1);
+        rule(x, "levy 10;", 0);
         Checks.text(x, "levy paid;");
         Checks.text(x, "levy paid+1;");
         x.months(1);
@@ -900,8 +885,8 @@ public final class ChoicesEdgeTests {
         due("none ahead of month 12 in its YEAR", x.tried(1, 0), 10 * 66);
         x.months(1);
         due("10 ahead of month 13", x.tried(1, 0), 10 * 67);
-        x = Edges.withFirms(1);
-        Edges.rule(x, "levy 10;", 0);
+        x = withFirms(1);
+        rule(x, "levy 10;", 0);
         x.months(3);
         x.firm();
         x.months(2);
@@ -929,13 +914,13 @@ public final class ChoicesEdgeTests {
         sentence("IV: TRIED: (a sort that the TEXT hasn't as without): back hours");
         due("hours", claimedAnd("levy 1;", 1, 2, 3), 40);
         sentence("IV: TRIED: the FIRM's NAMES as they are now; hours, price, age, trade, lack");
-        x = Edges.withFirms(2);
-        Edges.rule(x, "levy 100+month; cap 9999;", 0);
+        x = withFirms(2);
+        rule(x, "levy 100+month; cap 9999;", 0);
         x.hand(41, 3, 700, 0);
         x.hand(42, 3, 60, 0);
         x.course(0, 5, 23, 5, 1234, 13, 14, 0, 0);
         x.join(0, 0);
-        Edges.go(x, 15);
+        go(x, 15);
         x.marked(0, 90);
         x.claim(0);
         String[] names = {"wages", "heads", "paid", "month", "hours", "price", "age", "trade", "lack"};
@@ -949,7 +934,7 @@ public final class ChoicesEdgeTests {
         x.go(0, 1);
         x.wage(1, 90);
         x.trade(5, 17, 1, 1);
-        Edges.go(x, 30);
+        go(x, 30);
         want[0] = 90;
         want[1] = 1;
         want[2] = 12 * 112 + 66;

@@ -1,9 +1,5 @@
 /** Each sentence on what is JOINED, MARKED and CLAIMED (promises 15 to 21 and part III) that names a boundary case. */
-public final class CoursesEdgeTests {
-    private static final int NONE = LearningPaid.NONE;
-    private static final int LEAST = Integer.MIN_VALUE;
-    private static final int MOST = Integer.MAX_VALUE;
-
+public final class CoursesEdgeTests extends Edges {
     public static void main(String[] args) {
         joinNumbers();
         joinMonths();
@@ -33,21 +29,9 @@ public final class CoursesEdgeTests {
         Checks.finish("CoursesEdgeTests");
     }
 
-    private static void sentence(String words) {
-        Edges.sentence(words);
-    }
-
-    private static void due(String call, long got, long want) {
-        Edges.due(call, got, want);
-    }
-
-    private static void due(String call, boolean got, boolean want) {
-        Edges.due(call, got, want);
-    }
-
     /** FIRMS 0 and 1, HANDS at FIRM 0. */
     private static LearningPaid withHands(int n) {
-        LearningPaid x = Edges.withFirms(2);
+        LearningPaid x = withFirms(2);
         for (int i = 0; i < n; i++) {
             x.hand(25, 2, 1000, 0);
         }
@@ -59,8 +43,8 @@ public final class CoursesEdgeTests {
     private static void joinNumbers() {
         sentence("15: JOINED: its number; NONE for others");
         LearningPaid x = withHands(2);
-        Edges.course(x, 0, 0);
-        Edges.course(x, 1, 1);
+        course(x, 0, 0);
+        course(x, 1, 1);
         due("hand -1", x.join(-1, 0), NONE);
         due("hand 2", x.join(2, 0), NONE);
         due("hand 60", x.join(60, 0), NONE);
@@ -86,7 +70,7 @@ public final class CoursesEdgeTests {
         sentence("15: NONE if there are 120; III: JOINED (120 at most)");
         x = withHands(60);
         for (int i = 0; i < 7; i++) {
-            Edges.course(x, i, i);
+            course(x, i, i);
         }
         for (int i = 0; i < 120; i++) {
             due("joined", x.join(i % 60, i / 20), i);
@@ -96,12 +80,19 @@ public final class CoursesEdgeTests {
         due("the last is one", x.joined(119, 0), 59);
         due("those given up are among them", x.giveUp(119), true);
         due("one more", x.join(0, 6), NONE);
+        due("the last HAND is not bound", x.bound(59), 0);
+        due("it goes", x.go(59, NONE), 0);
+        go(x, 6);
+        due("the last but one is MARKED", x.marked(118, 90), 1);
+        due("and CLAIMED", x.claim(118), 20);
+        due("and drawn", x.drawn(1, 7, 0), 118);
+        due("and has its PAPER", x.has(58, 0, 6), 1);
     }
 
     private static void joinMonths() {
         sentence("III: a COURSE whose FIRST isn't below the clock");
         LearningPaid x = withHands(4);
-        Edges.course(x, 5, 7);
+        course(x, 5, 7);
         x.months(4);
         due("FIRST above the clock", x.join(0, 0), 0);
         x.months(1);
@@ -114,8 +105,8 @@ public final class CoursesEdgeTests {
         due("LAST below the clock", x.join(2, 0), NONE);
         sentence("15: NONE at 600");
         x = withHands(2);
-        Edges.course(x, 599, 599);
-        Edges.go(x, 599);
+        course(x, 599, 599);
+        go(x, 599);
         due("at 599", x.join(0, 0), 0);
         x.months(1);
         due("at 600", x.join(1, 0), NONE);
@@ -153,8 +144,8 @@ public final class CoursesEdgeTests {
 
     private static int beside(int first, int last) {
         LearningPaid x = withHands(1);
-        Edges.course(x, 10, 12);
-        Edges.course(x, first, last);
+        course(x, 10, 12);
+        course(x, first, last);
         x.join(0, 0);
         return x.join(0, 1);
     }
@@ -174,9 +165,9 @@ public final class CoursesEdgeTests {
         due("0 to 599", beside(0, 599), NONE);
         sentence("III: another COURSE it JOINED, itself");
         LearningPaid x = withHands(2);
-        Edges.course(x, 10, 12);
-        Edges.course(x, 12, 14);
-        Edges.course(x, 13, 13);
+        course(x, 10, 12);
+        course(x, 12, 14);
+        course(x, 13, 13);
         x.join(0, 0);
         due("another hand", x.join(1, 1), 1);
         due("the first of two", x.join(1, 0), NONE);
@@ -184,8 +175,8 @@ public final class CoursesEdgeTests {
         due("any of two", x.join(0, 1), NONE);
         sentence("III: and wasn't given up");
         x = withHands(1);
-        Edges.course(x, 10, 12);
-        Edges.course(x, 12, 14);
+        course(x, 10, 12);
+        course(x, 12, 14);
         x.join(0, 0);
         due("in common", x.join(0, 1), NONE);
         x.giveUp(0);
@@ -237,7 +228,7 @@ public final class CoursesEdgeTests {
     }
 
     private static int lost(int wage, int hours) {
-        LearningPaid x = Edges.withFirms(1);
+        LearningPaid x = withFirms(1);
         x.hand(20, 0, wage, 0);
         x.course(0, 0, hours, 1, 1, 0, 0, 0, 0);
         x.join(0, 0);
@@ -255,7 +246,7 @@ public final class CoursesEdgeTests {
         due("4999 * 199", lost(4999, 199), 4999 * 199 / 160);
         sentence("III: LOST: .. of then");
         LearningPaid x = withHands(1);
-        Edges.course(x, 0, 0);
+        course(x, 0, 0);
         x.join(0, 0);
         x.wage(0, 5000);
         due("of 1000", x.joined(0, 7), 125);
@@ -266,9 +257,9 @@ public final class CoursesEdgeTests {
 
     private static void itsFirm() {
         sentence("III: The FIRM .. is the one of it from then on");
-        LearningPaid x = Edges.withFirms(3);
+        LearningPaid x = withFirms(3);
         x.hand(25, 2, 1000, 2);
-        Edges.course(x, 0, 0);
+        course(x, 0, 0);
         x.join(0, 0);
         due("firm", x.joined(0, 2), 2);
         x.go(0, 1);
@@ -276,7 +267,7 @@ public final class CoursesEdgeTests {
         x.go(0, NONE);
         due("firm, as the hand is at none", x.joined(0, 2), 2);
         x.months(1);
-        Edges.rule(x, "levy 99; cap 99;", 0);
+        rule(x, "levy 99; cap 99;", 0);
         x.months(1);
         x.marked(0, 90);
         due("it claims", x.claim(0), 20);
@@ -296,16 +287,16 @@ public final class CoursesEdgeTests {
         sentence("16: GIVEN UP: true; III: as the clock isn't above FIRST");
         for (int clock = 0; clock <= 7; clock++) {
             LearningPaid x = withHands(1);
-            Edges.course(x, 4, 6);
+            course(x, 4, 6);
             x.join(0, 0);
-            Edges.go(x, clock);
+            go(x, clock);
             due("clock " + clock, x.giveUp(0), clock <= 4);
             due("is so", x.joined(0, 6), clock <= 4 ? 1 : 0);
             due("the SEAT is free", x.about(10), clock <= 4 ? 20 : 19);
         }
         sentence("16: False: none such, it was");
         LearningPaid x = withHands(2);
-        Edges.course(x, 4, 6);
+        course(x, 4, 6);
         due("0 of none", x.giveUp(0), false);
         x.join(0, 0);
         x.join(1, 0);
@@ -327,8 +318,8 @@ public final class CoursesEdgeTests {
     private static void markedNumbers() {
         sentence("17: NONE for others; III: MARKED (0 .. 100)");
         LearningPaid x = withHands(3);
-        Edges.rule(x, "mark 0;", 0);
-        Edges.course(x, 0, 0);
+        rule(x, "mark 0;", 0);
+        course(x, 0, 0);
         x.join(0, 0);
         x.join(1, 0);
         x.join(2, 0);
@@ -356,7 +347,7 @@ public final class CoursesEdgeTests {
         due("0 stays", x.joined(0, 3), 0);
         due("1 was", x.marked(1, 100), NONE);
         x = withHands(1);
-        Edges.course(x, 0, 0);
+        course(x, 0, 0);
         x.join(0, 0);
         x.months(1);
         due("didn't PASS", x.marked(0, 30), 0);
@@ -369,22 +360,22 @@ public final class CoursesEdgeTests {
         sentence("17: NONE for .. too early; III: as the clock is above LAST");
         for (int clock = 0; clock <= 9; clock++) {
             LearningPaid x = withHands(1);
-            Edges.course(x, 3, 6);
+            course(x, 3, 6);
             x.join(0, 0);
-            Edges.go(x, clock);
+            go(x, clock);
             due("clock " + clock, x.marked(0, 90), clock > 6 ? 1 : NONE);
         }
         LearningPaid x = withHands(1);
-        Edges.course(x, 0, 0);
+        course(x, 0, 0);
         x.join(0, 0);
-        Edges.go(x, 600);
+        go(x, 600);
         due("never too late", x.marked(0, 90), 1);
     }
 
     private static int byMark(String mark, int with) {
         LearningPaid x = withHands(1);
-        Edges.rule(x, "mark " + mark + ";", 0);
-        Edges.course(x, 0, 0);
+        rule(x, "mark " + mark + ";", 0);
+        course(x, 0, 0);
         x.join(0, 0);
         x.months(1);
         return x.marked(0, with);
@@ -401,25 +392,25 @@ public final class CoursesEdgeTests {
         due("0 of 1", byMark("1", 0), 0);
         sentence("III: (of LAST ..)");
         LearningPaid x = withHands(1);
-        Edges.rule(x, "mark 20;", 3);
-        Edges.rule(x, "mark 30;", 4);
-        Edges.rule(x, "mark 10;", 5);
-        Edges.course(x, 3, 4);
+        rule(x, "mark 20;", 3);
+        rule(x, "mark 30;", 4);
+        rule(x, "mark 10;", 5);
+        course(x, 3, 4);
         x.join(0, 0);
-        Edges.go(x, 9);
+        go(x, 9);
         due("29", x.marked(0, 29), 0);
         sentence("III: (.. as KNOWN then)");
         x = withHands(2);
-        Edges.course(x, 3, 4);
+        course(x, 3, 4);
         x.join(0, 0);
         x.join(1, 0);
-        Edges.go(x, 8);
+        go(x, 8);
         due("by 50", x.marked(0, 40), 0);
-        Edges.rule(x, "mark 40;", 4);
+        rule(x, "mark 40;", 4);
         due("by 40, told just now", x.marked(1, 40), 1);
         sentence("III: that stays");
         due("didn't PASS by then", x.joined(0, 4), 0);
-        Edges.rule(x, "mark 99;", 4);
+        rule(x, "mark 99;", 4);
         x.months(1);
         due("PASSED by then", x.joined(1, 4), 1);
         due("HAS it", x.has(1, 0, 9), 1);
@@ -432,7 +423,7 @@ public final class CoursesEdgeTests {
         sentence("18: -5: none such, or given up");
         LearningPaid x = withHands(2);
         due("0 of none", x.claim(0), -5);
-        Edges.course(x, 1, 1);
+        course(x, 1, 1);
         x.join(0, 0);
         x.join(1, 0);
         due("-1", x.claim(-1), -5);
@@ -443,34 +434,34 @@ public final class CoursesEdgeTests {
         due("one such", x.claim(1), -1);
         x.giveUp(1);
         due("given up", x.claim(1), -5);
-        Edges.go(x, 3);
+        go(x, 3);
         due("given up, and over", x.claim(1), -5);
     }
 
     private static void claimRefused() {
         sentence("III: Refused: -1 it isn't MARKED");
         LearningPaid x = withHands(2);
-        Edges.course(x, 1, 1);
+        course(x, 1, 1);
         x.join(0, 0);
         x.join(1, 0);
         due("not begun", x.claim(0), -1);
-        Edges.go(x, 2);
+        go(x, 2);
         due("over", x.claim(0), -1);
-        Edges.go(x, 40);
+        go(x, 40);
         due("long over", x.claim(0), -1);
         sentence("III: Refused: -1 .. or was CLAIMED");
-        x = Edges.passed("levy 99; cap 999;");
+        x = passed("levy 99; cap 999;");
         due("CLAIMED", x.claim(0), 20);
         due("was", x.claim(0), -1);
         due("comes back once", x.fund(), 3 * 99 - 20);
-        x = Edges.passed("levy 99; cap 999; back 0;");
+        x = passed("levy 99; cap 999; back 0;");
         due("CLAIMED, for 0", x.claim(0), 0);
         due("was", x.claim(0), -1);
         due("it is CLAIMED", x.joined(0, 5), 0);
         due("one is", x.about(7), 1);
         sentence("III: Refused: -2 it didn't PASS");
         x = withHands(1);
-        Edges.course(x, 0, 0);
+        course(x, 0, 0);
         x.join(0, 0);
         x.months(1);
         x.marked(0, 49);
@@ -481,79 +472,79 @@ public final class CoursesEdgeTests {
     private static void refusedFirst() {
         sentence("III: the first that holds");
         LearningPaid x = withHands(2);
-        Edges.rule(x, "levy 0; cap 99;", 0);
-        Edges.course(x, 0, 0);
+        rule(x, "levy 0; cap 99;", 0);
+        course(x, 0, 0);
         x.join(0, 0);
         x.join(1, 0);
-        Edges.go(x, 20);
+        go(x, 20);
         due("not MARKED, too late, nothing there", x.claim(0), -1);
         x.marked(0, 10);
         due("didn't PASS, too late, nothing there", x.claim(0), -2);
         x.marked(1, 90);
         due("too late, nothing there", x.claim(1), -3);
-        Edges.rule(x, "proof 60;", 0);
+        rule(x, "proof 60;", 0);
         due("nothing there", x.claim(1), -4);
-        Edges.rule(x, "levy 99;", 0);
+        rule(x, "levy 99;", 0);
         x.months(1);
         due("what comes back", x.claim(1), 20);
-        Edges.go(x, 100);
+        go(x, 100);
         due("was CLAIMED, too late", x.claim(1), -1);
     }
 
     private static void proof() {
         sentence("III: -3 the clock is more than proof above LAST");
         for (int proof : new int[] {1, 5, 59, 60}) {
-            LearningPaid x = Edges.passed("levy 1000; cap 999; proof " + proof + ";", 3, 4);
-            Edges.go(x, 4 + proof);
+            LearningPaid x = passed("levy 1000; cap 999; proof " + proof + ";", 3, 4);
+            go(x, 4 + proof);
             due("proof " + proof + ", as many", x.claim(0), 20);
             x.appeal(0);
             x.months(1);
             due("proof " + proof + ", one more", x.claim(0), -3);
         }
-        due("proof 0", Edges.passed("levy 1000; cap 999; proof 0;").claim(0), -3);
+        due("proof 0", passed("levy 1000; cap 999; proof 0;").claim(0), -3);
         sentence("III: proof by THE RULES of LAST as KNOWN now");
         LearningPaid x = withHands(1);
-        Edges.rule(x, "levy 1000; cap 999; proof 3;", 3);
-        Edges.rule(x, "proof 5;", 4);
-        Edges.rule(x, "proof 4;", 5);
-        Edges.course(x, 3, 4);
+        rule(x, "levy 1000; cap 999; proof 3;", 3);
+        rule(x, "proof 5;", 4);
+        rule(x, "proof 4;", 5);
+        course(x, 3, 4);
         x.join(0, 0);
-        Edges.go(x, 9);
+        go(x, 9);
         x.marked(0, 90);
         due("of LAST: 5", x.claim(0), 20);
         x.appeal(0);
         x.months(1);
         due("6 above", x.claim(0), -3);
-        Edges.rule(x, "proof 6;", 4);
+        rule(x, "proof 6;", 4);
         due("told now", x.claim(0), 20);
     }
 
     private static void fundHasLess() {
         sentence("III: -4 THE FUND has less");
-        LearningPaid x = Edges.passed("levy 20; cap 999; back 60;");
+        LearningPaid x = passed("levy 20; cap 999; back 60;");
         due("it has 60", x.fund(), 60);
         due("all of it", x.claim(0), 60);
         due("it has nothing", x.fund(), 0);
-        x = Edges.passed("levy 20; cap 999; back 61;");
+        x = passed("levy 20; cap 999; back 61;");
         due("one less", x.claim(0), -4);
         due("it isn't CLAIMED", x.joined(0, 5), NONE);
         due("nothing went", x.fund(), 60);
-        x = Edges.passed("levy 20; cap 999; back 59;");
+        x = passed("levy 20; cap 999; back 59;");
         due("one more", x.claim(0), 59);
         due("it has 1", x.fund(), 1);
-        x = Edges.passed("levy 0; cap 999; back 1;");
+        x = passed("levy 0; cap 999; back 1;");
         due("nothing there", x.claim(0), -4);
-        x = Edges.passed("levy 0; cap 999; back 0;");
+        x = passed("levy 0; cap 999; back 0;");
         due("nothing is wanted", x.claim(0), 0);
         sentence("III: THE FUND has less than what comes back, capped");
-        x = Edges.passed("levy 20; cap 60; back 70;");
+        x = passed("levy 20; cap 60; back 70;");
         due("cap 60", x.claim(0), 60);
-        x = Edges.passed("levy 20; cap 61; back 70;");
+        x = passed("levy 20; cap 61; back 70;");
         due("cap 61", x.claim(0), -4);
     }
 
     private static int backBy(String back) {
-        return Edges.passed("levy 1000*1000; cap 9999*9999; back " + back + ";").claim(0);
+        return passed("levy 1000*1000; cap 9999*9999; back " + back + ";").claim(0);
     }
 
     private static void backAtMost() {
@@ -569,37 +560,37 @@ public final class CoursesEdgeTests {
         due("the most", backBy("9999*9999*9999"), 1000000);
         sentence("III: by THE RULES of LAST as KNOWN now: back");
         LearningPaid x = withHands(1);
-        Edges.rule(x, "levy 1000; cap 999; back 1;", 3);
-        Edges.rule(x, "back 2;", 4);
-        Edges.rule(x, "back 3;", 5);
-        Edges.course(x, 3, 4);
+        rule(x, "levy 1000; cap 999; back 1;", 3);
+        rule(x, "back 2;", 4);
+        rule(x, "back 3;", 5);
+        course(x, 3, 4);
         x.join(0, 0);
-        Edges.go(x, 6);
+        go(x, 6);
         x.marked(0, 90);
         due("of LAST", x.claim(0), 2);
         x.appeal(0);
-        Edges.rule(x, "back 4;", 4);
+        rule(x, "back 4;", 4);
         due("told now", x.claim(0), 4);
         due("that stays", x.joined(0, 5), 4);
     }
 
     private static int backOf(String back, boolean later) {
-        LearningPaid x = Edges.withFirms(2);
-        Edges.rule(x, "levy 202+month/12*8; cap 9999; back " + back + ";", 0);
+        LearningPaid x = withFirms(2);
+        rule(x, "levy 202+month/12*8; cap 9999; back " + back + ";", 0);
         x.hand(41, 3, 700, 0);
         x.hand(20, 3, 60, 0);
         x.hand(22, 4, 5, 1);
         x.trade(6, 11, 1, 1);
         x.course(0, 6, 21, 5, 1001, 11, 12, 2, 0);
-        Edges.go(x, 10);
+        go(x, 10);
         x.join(0, 0);
-        Edges.go(x, 14);
+        go(x, 14);
         x.marked(0, 90);
         if (later) {
             x.go(0, 1);
             x.wage(1, 90);
             x.trade(6, 13, 1, 1);
-            Edges.go(x, 17);
+            go(x, 17);
         }
         return x.claim(0);
     }
@@ -613,7 +604,7 @@ public final class CoursesEdgeTests {
         sentence("III: paid in the YEAR of LAST");
         due("two months of it", backOf("paid", false), 2 * 210);
         due("five months of it", backOf("paid", true), 5 * 210);
-        LearningPaid x = Edges.passed("levy 10+month; cap 999; back paid;", 9, 11);
+        LearningPaid x = passed("levy 10+month; cap 999; back paid;", 9, 11);
         x.months(3);
         due("the whole of it, and no other", x.claim(0), 12 * 10 + 66);
         sentence("III: month: LAST)");
@@ -630,17 +621,17 @@ public final class CoursesEdgeTests {
 
     /** Three that PASSED for FIRM 0 in MONTH 11, one in MONTH 12, one for FIRM 1 in MONTH 11; the clock is 13. */
     private static LearningPaid five(String text) {
-        LearningPaid x = Edges.withFirms(2);
-        Edges.rule(x, text, 0);
+        LearningPaid x = withFirms(2);
+        rule(x, text, 0);
         for (int i = 0; i < 5; i++) {
             x.hand(25, 2, 1000, i == 4 ? 1 : 0);
         }
-        Edges.course(x, 11, 11);
-        Edges.course(x, 12, 12);
+        course(x, 11, 11);
+        course(x, 12, 12);
         for (int i = 0; i < 5; i++) {
             due("join", x.join(i, i == 3 ? 1 : 0), i);
         }
-        Edges.go(x, 13);
+        go(x, 13);
         for (int i = 0; i < 5; i++) {
             due("marked", x.marked(i, 60), 1);
         }
@@ -662,21 +653,21 @@ public final class CoursesEdgeTests {
         x.claim(1);
         due("0 of 0", x.claim(2), 0);
         due("that is CLAIMED", x.joined(2, 5), 0);
-        due("70", Edges.passed("levy 900; back 70; cap 70;").claim(0), 70);
-        due("69", Edges.passed("levy 900; back 70; cap 69;").claim(0), 69);
-        due("71", Edges.passed("levy 900; back 70; cap 71;").claim(0), 70);
+        due("70", passed("levy 900; back 70; cap 70;").claim(0), 70);
+        due("69", passed("levy 900; back 70; cap 69;").claim(0), 69);
+        due("71", passed("levy 900; back 70; cap 71;").claim(0), 70);
         sentence("III: cap (0 at least)");
-        due("cap 0", Edges.passed("levy 900; back 70; cap 0;").claim(0), 0);
-        due("cap -1", Edges.passed("levy 900; back 70; cap -1;").claim(0), 0);
-        due("the least", Edges.passed("levy 900; back 70; cap -9999*9999*9999;").claim(0), 0);
+        due("cap 0", passed("levy 900; back 70; cap 0;").claim(0), 0);
+        due("cap -1", passed("levy 900; back 70; cap -1;").claim(0), 0);
+        due("the least", passed("levy 900; back 70; cap -9999*9999*9999;").claim(0), 0);
         sentence("III: (0 if that is more)");
         x = five("levy 900; back 70; cap 100;");
         due("70 of 100", x.claim(0), 70);
         due("30 of 30", x.claim(1), 30);
-        Edges.rule(x, "cap 50;", 0);
+        rule(x, "cap 50;", 0);
         due("100 came back of 50", x.claim(2), 0);
         x.appeal(2);
-        Edges.rule(x, "cap -9999*9999*9999;", 0);
+        rule(x, "cap -9999*9999*9999;", 0);
         due("100 came back of less", x.claim(2), 0);
         sentence("III: cap as high as can be");
         x = five("levy 1000*1000; back 1000*1000; cap 9999*9999*9999;");
@@ -684,13 +675,13 @@ public final class CoursesEdgeTests {
         due("all", x.claim(1), 1000000);
         sentence("III: by THE RULES of LAST as KNOWN now: cap");
         x = five("levy 900; back 70;");
-        Edges.rule(x, "cap 10;", 10);
-        Edges.rule(x, "cap 20;", 11);
-        Edges.rule(x, "cap 30;", 12);
+        rule(x, "cap 10;", 10);
+        rule(x, "cap 20;", 11);
+        rule(x, "cap 30;", 12);
         due("of LAST 11", x.claim(0), 20);
         due("of LAST 12", x.claim(3), 30);
         due("of LAST 11", x.claim(1), 0);
-        Edges.rule(x, "cap 25;", 11);
+        rule(x, "cap 25;", 11);
         due("told now", x.claim(2), 5);
     }
 
@@ -724,15 +715,15 @@ public final class CoursesEdgeTests {
         due("LAST in year 1, ahead of", x.claim(3), 70);
         due("LAST in year 0", x.claim(2), 70);
         sentence("III: YEAR of a MONTH: MONTH / 12");
-        x = Edges.withFirms(1);
-        Edges.rule(x, "levy 900; back 70; cap 100; proof 60;", 0);
+        x = withFirms(1);
+        rule(x, "levy 900; back 70; cap 100; proof 60;", 0);
         x.hand(25, 2, 1000, 0);
         int[] months = {0, 11, 12, 23, 24};
         for (int i = 0; i < 5; i++) {
-            Edges.course(x, months[i], months[i]);
+            course(x, months[i], months[i]);
             x.join(0, i);
         }
-        Edges.go(x, 25);
+        go(x, 25);
         int[] want = {70, 30, 70, 30, 70};
         for (int i = 0; i < 5; i++) {
             x.marked(i, 90);
@@ -741,6 +732,26 @@ public final class CoursesEdgeTests {
         due("back in year 0", x.firmOf(0, 0, 3), 100);
         due("back in year 1", x.firmOf(0, 1, 3), 100);
         due("back in year 2", x.firmOf(0, 2, 3), 70);
+        sentence("III: cap by THE RULES of LAST, less what came BACK in the YEAR of LAST, not of FIRST");
+        x = withFirms(1);
+        rule(x, "levy 900; back 70; proof 60; cap 50;", 0);
+        rule(x, "cap 100;", 12);
+        rule(x, "cap 30;", 15);
+        for (int hand = 0; hand < 3; hand++) {
+            x.hand(25, 2, 1000, 0);
+        }
+        course(x, 5, 5);
+        course(x, 10, 12);
+        x.join(0, 0);
+        x.join(1, 1);
+        x.join(2, 1);
+        go(x, 26);
+        for (int joined = 0; joined < 3; joined++) {
+            x.marked(joined, 90);
+        }
+        due("LAST 5: cap 50", x.claim(0), 50);
+        due("FIRST 10, LAST 12: cap 100, nothing came as yet", x.claim(1), 70);
+        due("FIRST 10, LAST 12: 30 of 100 are left", x.claim(2), 30);
     }
 
     // ---- Promise 19: appeal ----
@@ -779,7 +790,7 @@ public final class CoursesEdgeTests {
         sentence("19: appeal, however late");
         x = five("levy 900; back 70; cap 100;");
         x.claim(0);
-        Edges.go(x, 600);
+        go(x, 600);
         due("undone", x.appeal(0), true);
         due("but not claimed again", x.claim(0), -3);
         due("it PASSED all the same", x.joined(0, 4), 1);
@@ -818,7 +829,7 @@ public final class CoursesEdgeTests {
         x.marked(1, 0);
         due("MARK 0", x.joined(1, 3), 0);
         due("didn't PASS", x.joined(1, 4), 0);
-        x = Edges.passed("levy 99; cap 99; back 0;");
+        x = passed("levy 99; cap 99; back 0;");
         x.claim(0);
         due("BACK 0", x.joined(0, 5), 0);
         due("PASSED", x.joined(0, 4), 1);
@@ -829,7 +840,7 @@ public final class CoursesEdgeTests {
 
     private static void has() {
         sentence("21: NONE for others");
-        LearningPaid x = Edges.passed("mark 1;", 2, 3);
+        LearningPaid x = passed("mark 1;", 2, 3);
         due("hand -1", x.has(-1, 2, 5), NONE);
         due("hand 1", x.has(1, 2, 5), NONE);
         due("hand least", x.has(LEAST, 2, 5), NONE);
@@ -866,7 +877,7 @@ public final class CoursesEdgeTests {
     private static void lapses() {
         sentence("Terms: by not more than LIFE");
         for (int life : new int[] {1, 2, 7, 120}) {
-            LearningPaid x = Edges.passed("mark 1;", 2, 3);
+            LearningPaid x = passed("mark 1;", 2, 3);
             x.paper(2, life);
             due("LIFE " + life + ", LAST", x.has(0, 2, 3), 0);
             due("LIFE " + life + ", one behind", x.has(0, 2, 4), 1);
@@ -874,7 +885,7 @@ public final class CoursesEdgeTests {
             due("LIFE " + life + ", one more", x.has(0, 2, 4 + life), 0);
         }
         sentence("Terms: (0: at all)");
-        LearningPaid x = Edges.passed("mark 1;", 2, 3);
+        LearningPaid x = passed("mark 1;", 2, 3);
         x.paper(2, 0);
         due("LAST", x.has(0, 2, 3), 0);
         due("one behind", x.has(0, 2, 4), 1);
@@ -886,7 +897,7 @@ public final class CoursesEdgeTests {
         x.course(0, 1, 20, 5, 1000, 6, 6, 2, 0);
         x.join(0, 0);
         x.join(0, 1);
-        Edges.go(x, 7);
+        go(x, 7);
         x.marked(0, 90);
         x.marked(1, 90);
         int[] want = {0, 1, 1, 1, 0, 0, 0, 1, 1, 1, 0, 0};

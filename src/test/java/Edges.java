@@ -1,13 +1,11 @@
 import java.util.function.Consumer;
 
 /** What the edge tests share: the sentence that a check is about, and boards that many of them begin with. */
-final class Edges {
+abstract class Edges {
     static final int NONE = LearningPaid.NONE;
-    static final int[] FAR = {Integer.MIN_VALUE, Integer.MAX_VALUE};
+    static final int LEAST = Integer.MIN_VALUE;
+    static final int MOST = Integer.MAX_VALUE;
     private static String sentence = "";
-
-    private Edges() {
-    }
 
     /** Names the sentence of the document that the checks behind this are about. */
     static void sentence(String words) {

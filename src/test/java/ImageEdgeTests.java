@@ -1,9 +1,7 @@
 import java.util.function.Consumer;
 
 /** Each sentence of promises 38 and 39, and on THE IMAGE, that names a boundary case. */
-public final class ImageEdgeTests {
-    private static final int NONE = LearningPaid.NONE;
-
+public final class ImageEdgeTests extends Edges {
     public static void main(String[] args) {
         clocks();
         allIsSo();
@@ -13,20 +11,10 @@ public final class ImageEdgeTests {
         imageIsNow();
         numbersAnew();
         monthsAnew();
+        owedAgain();
+        leftBehind();
         fullAnew();
         Checks.finish("ImageEdgeTests");
-    }
-
-    private static void sentence(String words) {
-        Edges.sentence(words);
-    }
-
-    private static void due(String call, long got, long want) {
-        Edges.due(call, got, want);
-    }
-
-    private static void due(String call, boolean got, boolean want) {
-        Edges.due(call, got, want);
     }
 
     private static void clocks() {
@@ -42,7 +30,7 @@ public final class ImageEdgeTests {
         due("the clock stays", x.about(0), 9);
         x.months(1);
         due("back to 9", x.back(), 9);
-        Edges.go(x, 600);
+        go(x, 600);
         due("image of 600", x.image(), 600);
         due("back to 600", x.back(), 600);
     }
@@ -107,7 +95,7 @@ public final class ImageEdgeTests {
                 x.result(i, 99 - i);
             }
             x.end(0);
-            Edges.rule(x, "levy 77; member 1=1; stay 33; cap 3; mark 3; proof 3;", 0);
+            rule(x, "levy 77; member 1=1; stay 33; cap 3; mark 3; proof 3;", 0);
             x.months(2);
         });
         due("much at once: " + other, other.isEmpty(), true);
@@ -171,8 +159,8 @@ public final class ImageEdgeTests {
         due("without a FAULT", x.fault(0), 0);
         due("without a place", x.fault(1), NONE);
         sentence("IV: AN IMAGE: all .. but THE SHEET");
-        x = Edges.withFirms(1);
-        Edges.rule(x, "levy 64;", 0);
+        x = withFirms(1);
+        rule(x, "levy 64;", 0);
         x.image();
         x.months(1);
         x.sheet(0);
@@ -184,7 +172,7 @@ public final class ImageEdgeTests {
         due("altered to 0", x.check(0), 1);
         due("FIRM", x.check(1), 5);
         due("side", x.check(2), 1);
-        x = Edges.withFirms(1);
+        x = withFirms(1);
         x.image();
         x.back();
         due("none was taken", x.check(0), NONE);
@@ -214,7 +202,7 @@ public final class ImageEdgeTests {
 
     private static void imageIsNow() {
         sentence("38: THE IMAGE is as all is now: what it was ahead of that is gone");
-        LearningPaid x = Edges.withFirms(1);
+        LearningPaid x = withFirms(1);
         x.image();
         x.firm();
         x.image();
@@ -239,8 +227,8 @@ public final class ImageEdgeTests {
 
     private static void numbersAnew() {
         sentence("IV: BACK: all is so again: what comes then has its numbers anew");
-        LearningPaid x = Edges.crowd(2, 2, 2);
-        Edges.rule(x, "levy 1;", 0);
+        LearningPaid x = crowd(2, 2, 2);
+        rule(x, "levy 1;", 0);
         x.join(0, 0);
         x.image();
         for (int i = 0; i < 2; i++) {
@@ -267,7 +255,7 @@ public final class ImageEdgeTests {
 
     private static void monthsAnew() {
         sentence("IV: BACK: MONTHS that go by anew");
-        LearningPaid x = Edges.withFirms(1);
+        LearningPaid x = withFirms(1);
         x.hand(20, 0, 1000, 0);
         x.months(2);
         x.image();
@@ -291,11 +279,11 @@ public final class ImageEdgeTests {
         due("tried: paid", x.tried(1, 0), 0 + 10 + 20);
         due("tried: how many there were", x.tried(2, 0), 1 + 1 + 2);
         sentence("IV: BACK: of MONTHS behind THE IMAGE nothing is PAID");
-        x = Edges.withFirms(1);
-        Edges.rule(x, "levy 5;", 0);
-        Edges.go(x, 10);
+        x = withFirms(1);
+        rule(x, "levy 5;", 0);
+        go(x, 10);
         x.image();
-        Edges.go(x, 30);
+        go(x, 30);
         x.back();
         due("year 0", x.firmOf(0, 0, 2), 50);
         due("year 1", x.firmOf(0, 1, 2), 0);
@@ -305,9 +293,73 @@ public final class ImageEdgeTests {
         due("year 1", x.firmOf(0, 1, 2), 5);
     }
 
+    /** FIRMS 0 to 19, HANDS 0 to 4 at FIRM 0 that PASSED a COURSE of PRICE 1000, of which all is due. */
+    private static LearningPaid leavers() {
+        LearningPaid x = withFirms(20);
+        rule(x, "stay 10; levy 5;", 0);
+        course(x, 0, 0);
+        for (int hand = 0; hand < 5; hand++) {
+            x.hand(20, 0, 0, 0);
+            x.join(hand, 0);
+        }
+        x.months(1);
+        for (int joined = 0; joined < 5; joined++) {
+            x.marked(joined, 90);
+        }
+        return x;
+    }
+
+    private static void owedAgain() {
+        sentence("IV: AN IMAGE: all: what is owed by each");
+        int[] by = {NONE, 1, 17, 18, 19};
+        LearningPaid x = leavers();
+        x.image();
+        for (int hand = 0; hand < 5; hand++) {
+            due("goes to " + by[hand], x.go(hand, by[hand]), 1000);
+        }
+        x.back();
+        for (int hand = 0; hand < 5; hand++) {
+            due("not owed by " + by[hand], x.owed(0, by[hand]), 0);
+            due("bound again", x.bound(hand), 1000);
+            due("goes again to " + by[hand], x.go(hand, by[hand]), 1000);
+        }
+        due("by itself", x.handOf(0, 4), 1000);
+        x.image();
+        for (int hand = 0; hand < 5; hand++) {
+            x.go(hand, 0);
+        }
+        x.back();
+        for (int hand = 0; hand < 5; hand++) {
+            due("owed by " + by[hand], x.owed(0, by[hand]), 1000);
+            due("is at " + by[hand], x.handOf(hand, 3), by[hand]);
+            x.go(hand, 0);
+            due("bound no more", x.bound(hand), 0);
+        }
+        due("by itself", x.handOf(0, 4), 1000);
+    }
+
+    private static void leftBehind() {
+        sentence("IV: BACK: what FIRMS paid that aren't there any more is gone");
+        LearningPaid x = withFirms(1);
+        rule(x, "levy 5;", 0);
+        x.image();
+        x.firm();
+        x.months(3);
+        due("FIRM 1", x.firmOf(1, 0, 2), 15);
+        x.back();
+        x.months(3);
+        x.firm();
+        due("FIRM 1 anew", x.firmOf(1, 0, 2), 0);
+        rule(x, "levy 1+paid;", 0);
+        x.months(1);
+        due("FIRM 1, by what it paid", x.firmOf(1, 0, 2), 1);
+        due("FIRM 0, by what it paid", x.firmOf(0, 0, 2), 15 + 16);
+        due("tried", x.tried(1, 0), (1 + 6 + 11 + 16) + 1);
+    }
+
     private static void fullAnew() {
         sentence("IV: BACK from what is full to what isn't");
-        LearningPaid x = Edges.withFirms(19);
+        LearningPaid x = withFirms(19);
         x.image();
         x.firm();
         due("full", x.firm(), NONE);
@@ -323,7 +375,7 @@ public final class ImageEdgeTests {
         x.back();
         due("one more", x.text(), 9);
         sentence("IV: back to what is full");
-        x = Edges.withFirms(20);
+        x = withFirms(20);
         x.image();
         x.back();
         due("full", x.firm(), NONE);

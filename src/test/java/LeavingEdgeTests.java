@@ -1,9 +1,5 @@
 /** Each sentence on STAY and leaving (promises 14, 22, 23 and part III) that names a boundary case. */
-public final class LeavingEdgeTests {
-    private static final int NONE = LearningPaid.NONE;
-    private static final int LEAST = Integer.MIN_VALUE;
-    private static final int MOST = Integer.MAX_VALUE;
-
+public final class LeavingEdgeTests extends Edges {
     public static void main(String[] args) {
         goNumbers();
         isThere();
@@ -23,23 +19,11 @@ public final class LeavingEdgeTests {
         Checks.finish("LeavingEdgeTests");
     }
 
-    private static void sentence(String words) {
-        Edges.sentence(words);
-    }
-
-    private static void due(String call, long got, long want) {
-        Edges.due(call, got, want);
-    }
-
-    private static LearningPaid passed(String text) {
-        return Edges.passed(text);
-    }
-
     // ---- Promises 14, 22, 23: what they take ----
 
     private static void goNumbers() {
         sentence("14: A HAND goes to a FIRM; NONE for others");
-        LearningPaid x = Edges.withFirms(3);
+        LearningPaid x = withFirms(3);
         x.hand(20, 0, 100, 0);
         x.hand(20, 0, 10, 0);
         due("hand -1", x.go(-1, 1), NONE);
@@ -104,7 +88,7 @@ public final class LeavingEdgeTests {
 
     private static void owedNumbers() {
         sentence("23: to a FIRM, by a FIRM; NONE for others");
-        LearningPaid x = Edges.withFirms(2);
+        LearningPaid x = withFirms(2);
         due("-1, 0", x.owed(-1, 0), NONE);
         due("2, 0", x.owed(2, 0), NONE);
         due("least, 0", x.owed(LEAST, 0), NONE);
@@ -118,8 +102,8 @@ public final class LeavingEdgeTests {
         due("1, 1", x.owed(1, 1), 0);
         due("0, NONE", x.owed(0, NONE), 0);
         due("1, NONE", x.owed(1, NONE), 0);
-        due("20 firms", Edges.withFirms(20).owed(19, 19), 0);
-        due("20 firms", Edges.withFirms(20).owed(19, 20), NONE);
+        due("20 firms", withFirms(20).owed(19, 19), 0);
+        due("20 firms", withFirms(20).owed(19, 20), NONE);
         due("no firms", new LearningPaid().owed(0, NONE), NONE);
     }
 
@@ -127,7 +111,7 @@ public final class LeavingEdgeTests {
 
     private static long boundAt(String text, int clock) {
         LearningPaid x = passed(text);
-        Edges.go(x, clock);
+        go(x, clock);
         return x.bound(0);
     }
 
@@ -143,7 +127,7 @@ public final class LeavingEdgeTests {
         due("stay 1", boundAt("stay 1;", 1), 1000);
         due("stay 1, behind", boundAt("stay 1;", 2), 0);
         sentence("III: a HAND leaves in MONTH m, 600 too");
-        LearningPaid x = Edges.passed("stay 10;", 595, 598);
+        LearningPaid x = passed("stay 10;", 595, 598);
         due("at 599", x.bound(0), 1000);
         x.months(1);
         due("at 600", x.bound(0), 900);
@@ -166,14 +150,14 @@ public final class LeavingEdgeTests {
     }
 
     private static long bound(int price, int stay, int clock) {
-        LearningPaid x = Edges.withFirms(1);
-        Edges.rule(x, "stay " + stay + ";", 0);
+        LearningPaid x = withFirms(1);
+        rule(x, "stay " + stay + ";", 0);
         x.hand(25, 2, 1000, 0);
         x.course(0, 1, 20, 5, price, 0, 0, 2, 0);
         x.join(0, 0);
         x.months(1);
         x.marked(0, 100);
-        Edges.go(x, clock);
+        go(x, clock);
         return x.bound(0);
     }
 
@@ -190,23 +174,23 @@ public final class LeavingEdgeTests {
 
     private static void byRulesOfLast() {
         sentence("III: by THE RULES of LAST");
-        LearningPaid x = Edges.withFirms(1);
-        Edges.rule(x, "stay 10;", 3);
-        Edges.rule(x, "stay 20;", 4);
-        Edges.rule(x, "stay 40;", 5);
+        LearningPaid x = withFirms(1);
+        rule(x, "stay 10;", 3);
+        rule(x, "stay 20;", 4);
+        rule(x, "stay 40;", 5);
         x.hand(25, 2, 1000, 0);
         x.course(0, 1, 20, 5, 1000, 2, 4, 2, 0);
         x.join(0, 0);
-        Edges.go(x, 10);
+        go(x, 10);
         x.marked(0, 100);
         due("not of FIRST, nor of now", x.bound(0), 1000 * (4 + 1 + 20 - 10) / 20);
         sentence("III: as KNOWN in the MONTH at hand");
-        Edges.rule(x, "stay 30;", 4);
+        rule(x, "stay 30;", 4);
         due("as told now", x.bound(0), 1000 * (4 + 1 + 30 - 10) / 30);
         x = passed("levy 10;");
         due("none was told", x.bound(0), 0);
         x.months(4);
-        Edges.rule(x, "stay 10;", 0);
+        rule(x, "stay 10;", 0);
         due("told now", x.bound(0), 600);
     }
 
@@ -219,7 +203,7 @@ public final class LeavingEdgeTests {
         due("age", boundAt("stay age-5;", 11), 500);
         due("trade of the COURSE", boundAt("stay trade*20;", 11), 500);
         LearningPaid x = passed("stay lack;");
-        Edges.go(x, 11);
+        go(x, 11);
         due("lack at first", x.bound(0), 0);
         x.trade(1, 20, 1, 1);
         x.trade(2, 40, 1, 1);
@@ -227,16 +211,16 @@ public final class LeavingEdgeTests {
         x.trade(1, 40, 1, 1);
         due("lack now", x.bound(0), 750);
         sentence("III: with the same NAMES: month: LAST");
-        x = Edges.passed("stay month;", 18, 20);
-        Edges.go(x, 31);
+        x = passed("stay month;", 18, 20);
+        go(x, 31);
         due("LAST is 20", x.bound(0), 500);
         sentence("III: with the same NAMES: paid in the YEAR of LAST");
-        x = Edges.passed("stay paid-24;levy 2+month/12*8;", 12, 12);
+        x = passed("stay paid-24;levy 2+month/12*8;", 12, 12);
         due("paid 10 as yet", x.bound(0), 0);
         x.months(4);
         due("paid 50 as yet", x.bound(0), 1000 * (12 + 1 + 26 - 17) / 26);
-        x = Edges.passed("stay paid/10;levy 2+month/12*8;", 23, 23);
-        Edges.go(x, 30);
+        x = passed("stay paid/10;levy 2+month/12*8;", 23, 23);
+        go(x, 30);
         due("paid 120 in YEAR 1, 108 in this one", x.bound(0), 1000 * (23 + 1 + 12 - 30) / 12);
     }
 
@@ -247,8 +231,8 @@ public final class LeavingEdgeTests {
         x.months(2);
         due("with both", x.bound(0), 1000 * (1 + 21 - 3) / 21);
         due("goes", x.go(0, 1), 1000 * (1 + 21 - 3) / 21);
-        x = Edges.withFirms(2);
-        Edges.rule(x, "stay wages/100;", 0);
+        x = withFirms(2);
+        rule(x, "stay wages/100;", 0);
         x.hand(30, 0, 1000, 0);
         x.hand(30, 0, 1000, 0);
         x.course(0, 1, 20, 5, 1000, 0, 0, 2, 0);
@@ -268,11 +252,11 @@ public final class LeavingEdgeTests {
 
     private static void whichCourses() {
         sentence("III: STAY of what PASSED");
-        LearningPaid x = Edges.withFirms(2);
-        Edges.rule(x, "stay 10;", 0);
+        LearningPaid x = withFirms(2);
+        rule(x, "stay 10;", 0);
         x.hand(30, 0, 1000, 0);
         x.hand(30, 0, 1000, 0);
-        Edges.course(x, 0, 0);
+        course(x, 0, 0);
         x.join(0, 0);
         x.join(1, 0);
         due("not over", x.bound(0), 0);
@@ -284,8 +268,8 @@ public final class LeavingEdgeTests {
         due("of another HAND", x.bound(0), 0);
         due("PASSED", x.bound(1), 1000);
         sentence("III: a HAND leaves a FIRM: for each such COURSE of that FIRM");
-        x = Edges.withFirms(3);
-        Edges.rule(x, "stay 60;", 0);
+        x = withFirms(3);
+        rule(x, "stay 60;", 0);
         x.hand(30, 0, 1000, 0);
         x.course(0, 1, 20, 5, 600, 0, 0, 2, 0);
         x.course(0, 1, 20, 5, 120, 2, 2, 2, 0);
@@ -318,8 +302,8 @@ public final class LeavingEdgeTests {
         due("to none again", x.go(0, NONE), 0);
         due("owes once", x.handOf(0, 4), 1000);
         sentence("III: once: what it PASSED later is another");
-        x = Edges.withFirms(2);
-        Edges.rule(x, "stay 10;", 0);
+        x = withFirms(2);
+        rule(x, "stay 10;", 0);
         x.hand(30, 0, 1000, 0);
         x.course(0, 1, 20, 5, 600, 0, 0, 2, 0);
         x.course(0, 1, 20, 5, 120, 0 + 1, 1, 2, 0);
@@ -335,10 +319,10 @@ public final class LeavingEdgeTests {
         due("comes back", x.go(0, 0), 0);
         due("bound no more", x.bound(0), 0);
         sentence("III: behind that: leaving ahead of having PASSED isn't that time");
-        x = Edges.withFirms(2);
-        Edges.rule(x, "stay 10;", 0);
+        x = withFirms(2);
+        rule(x, "stay 10;", 0);
         x.hand(30, 0, 1000, 0);
-        Edges.course(x, 0, 0);
+        course(x, 0, 0);
         x.join(0, 0);
         due("as it goes on", x.go(0, 1), 0);
         due("comes back", x.go(0, 0), 0);
@@ -353,14 +337,14 @@ public final class LeavingEdgeTests {
     private static void onceForNothing() {
         sentence("III: the first time it leaves it, though nothing was due then");
         LearningPaid x = passed("stay 3;");
-        Edges.go(x, 10);
+        go(x, 10);
         due("nothing is due", x.go(0, 1), 0);
-        Edges.rule(x, "stay 60;", 0);
+        rule(x, "stay 60;", 0);
         x.go(0, 0);
         due("that was its time", x.bound(0), 0);
         x = passed("stay 0;");
         due("stay 0", x.go(0, 1), 0);
-        Edges.rule(x, "stay 60;", 0);
+        rule(x, "stay 60;", 0);
         x.go(0, 0);
         due("that was its time too", x.bound(0), 0);
         sentence("III: asking what it is bound by is not leaving");
@@ -396,8 +380,8 @@ public final class LeavingEdgeTests {
 
     private static void together() {
         sentence("23: What was owed for HANDS who left, together");
-        LearningPaid x = Edges.withFirms(3);
-        Edges.rule(x, "stay 10;", 0);
+        LearningPaid x = withFirms(3);
+        rule(x, "stay 10;", 0);
         for (int hand = 0; hand < 5; hand++) {
             x.hand(30, 0, 1000, 0);
         }

@@ -5,10 +5,7 @@ import java.util.function.ToIntFunction;
  * What a refused call, and a call that only asks, leaves unchanged: all of it. Each is put to a board by itself, and
  * all that the board tells then is the same as without that call.
  */
-public final class RefusedTests {
-    private static final int NONE = LearningPaid.NONE;
-    private static final int LEAST = Integer.MIN_VALUE;
-    private static final int MOST = Integer.MAX_VALUE;
+public final class RefusedTests extends Edges {
     private static Consumer<LearningPaid> script;
     private static State before;
 
@@ -263,7 +260,7 @@ public final class RefusedTests {
                 x.hand(20, 0, 100, 0);
             }
             for (int i = 0; i < 7; i++) {
-                Edges.course(x, i, i);
+                course(x, i, i);
             }
             for (int i = 0; i < 120; i++) {
                 x.join(i % 20, i / 20);
@@ -276,14 +273,14 @@ public final class RefusedTests {
     private static void oddBoards() {
         on(x -> {
             x.firm();
-            Edges.go(x, 590);
+            go(x, 590);
         });
         same("beyond 600", x -> x.months(11), NONE);
         on(x -> {
             x.firm();
             x.hand(20, 0, 100, 0);
-            Edges.course(x, 599, 599);
-            Edges.go(x, 600);
+            course(x, 599, 599);
+            go(x, 600);
         });
         same("beyond 600 from 600", x -> x.months(1), NONE);
         same("joins at 600", x -> x.join(0, 0), NONE);
@@ -300,9 +297,9 @@ public final class RefusedTests {
             x.hand(20, 0, 100, 0);
             Checks.text(x, "levy 9000; cap 9999;");
             x.ruling(0, 0);
-            Edges.course(x, 0, 0);
+            course(x, 0, 0);
             x.join(0, 0);
-            Edges.go(x, 7);
+            go(x, 7);
             x.marked(0, 90);
         });
         same("claim behind its proof", x -> x.claim(0), -3);
@@ -311,7 +308,7 @@ public final class RefusedTests {
             x.hand(20, 0, 100, 0);
             Checks.text(x, "levy 10; cap 9999; back 11;");
             x.ruling(0, 0);
-            Edges.course(x, 0, 0);
+            course(x, 0, 0);
             x.join(0, 0);
             x.months(1);
             x.marked(0, 90);

@@ -1,8 +1,5 @@
 /** Each sentence of part II on what CLAUSES answer and on RULINGS, and of promises 12 and 13, that names a boundary case. */
-public final class RulesEdgeTests {
-    private static final int NONE = LearningPaid.NONE;
-    private static final int LEAST = Integer.MIN_VALUE;
-    private static final int MOST = Integer.MAX_VALUE;
+public final class RulesEdgeTests extends Edges {
     private static final String BILLION = "1000*1000*1000";
 
     public static void main(String[] args) {
@@ -23,18 +20,6 @@ public final class RulesEdgeTests {
         Checks.finish("RulesEdgeTests");
     }
 
-    private static void sentence(String words) {
-        Edges.sentence(words);
-    }
-
-    private static void due(String call, long got, long want) {
-        Edges.due(call, got, want);
-    }
-
-    private static void due(String call, boolean got, boolean want) {
-        Edges.due(call, got, want);
-    }
-
     /** Whether what stands on both sides is the same (each at most 1000000000, at least less that). */
     private static void same(String left, String right) {
         due(left + " is " + right, isMember(left + "=" + right), true);
@@ -42,8 +27,8 @@ public final class RulesEdgeTests {
     }
 
     private static boolean isMember(String either) {
-        LearningPaid x = Edges.withFirms(1);
-        Edges.rule(x, "levy 5; member " + either + ";", 0);
+        LearningPaid x = withFirms(1);
+        rule(x, "levy 5; member " + either + ";", 0);
         x.months(1);
         return x.fund() == 5;
     }
@@ -227,15 +212,15 @@ public final class RulesEdgeTests {
 
     /** What came BACK by this SUM for a COURSE of TRADE 5 (LACK 17), 23 HOURS, PRICE 1234, LAST 13, HAND 41 years. */
     private static long back(String sum) {
-        LearningPaid x = Edges.withFirms(2);
-        Edges.rule(x, "levy 1000; cap 9999*9999; back " + sum + ";", 0);
+        LearningPaid x = withFirms(2);
+        rule(x, "levy 1000; cap 9999*9999; back " + sum + ";", 0);
         x.trade(5, 17, 1, 1);
         x.hand(41, 3, 700, 0);
         x.hand(20, 3, 60, 0);
         x.hand(20, 3, 5000, 1);
         x.course(0, 5, 23, 5, 1234, 12, 13, 0, 0);
         x.join(0, 0);
-        Edges.go(x, 15);
+        go(x, 15);
         x.marked(0, 90);
         return x.claim(0);
     }
@@ -251,8 +236,8 @@ public final class RulesEdgeTests {
         due("age", back("age"), 41);
         due("trade", back("trade"), 5);
         due("lack", back("lack"), 17);
-        LearningPaid x = Edges.withFirms(2);
-        Edges.rule(x, "levy wages+10*heads+month; member heads>0 and wages>0 and month>0 and paid<2000;", 0);
+        LearningPaid x = withFirms(2);
+        rule(x, "levy wages+10*heads+month; member heads>0 and wages>0 and month>0 and paid<2000;", 0);
         x.hand(41, 3, 700, 0);
         x.hand(41, 3, 60, 0);
         x.months(1);
@@ -289,7 +274,7 @@ public final class RulesEdgeTests {
         due("from 600", x.ruling(0, 600), NONE);
         due("from least", x.ruling(0, LEAST), NONE);
         due("from most", x.ruling(0, MOST), NONE);
-        Edges.go(x, 600);
+        go(x, 600);
         due("from 0, long gone by", x.ruling(0, 0), 5);
         due("from 599, gone by", x.ruling(0, 599), 6);
         due("from 600", x.ruling(0, 600), NONE);
@@ -298,7 +283,7 @@ public final class RulesEdgeTests {
 
     private static void rulingsAtMost() {
         sentence("12: NONE if there are 40; II: RULINGS (40 at most)");
-        LearningPaid x = Edges.withFirms(1);
+        LearningPaid x = withFirms(1);
         Checks.text(x, "levy 1;");
         Checks.text(x, "levy 2;");
         for (int i = 1; i < 40; i++) {
@@ -389,58 +374,58 @@ public final class RulesEdgeTests {
         due("known 7", x.ruled(1, 0, 7), 0);
         due("known 8", x.ruled(1, 0, 8), 1);
         sentence("II: (as KNOWN then): a RULING told later doesn't hold for what went by");
-        x = Edges.withFirms(1);
-        Edges.rule(x, "levy 3;", 0);
+        x = withFirms(1);
+        rule(x, "levy 3;", 0);
         x.months(2);
-        Edges.rule(x, "levy 500;", 0);
+        rule(x, "levy 500;", 0);
         due("what went by", x.fund(), 6);
         x.months(1);
         due("from then on", x.fund(), 506);
         sentence("II: TOLD on the clock's MONTH, 600 too");
-        x = Edges.withFirms(1);
+        x = withFirms(1);
         x.hand(20, 0, 1000, 0);
-        Edges.course(x, 599, 599);
+        course(x, 599, 599);
         x.join(0, 0);
-        Edges.go(x, 600);
-        Edges.rule(x, "mark 90; back 3;", 0);
+        go(x, 600);
+        rule(x, "mark 90; back 3;", 0);
         due("in no MONTH's knowledge", x.ruled(6, 599, 599), NONE);
         due("but now", x.marked(0, 89), 0);
     }
 
     private static void without() {
         sentence("II: Without: member so for all, levy wages / 100");
-        LearningPaid x = Edges.withFirms(2);
+        LearningPaid x = withFirms(2);
         x.hand(20, 0, 1099, 0);
         x.months(1);
         due("cut", x.fund(), 10);
         due("nothing of a firm without hands", x.firmOf(1, 0, 2), 0);
-        x = Edges.withFirms(2);
-        Edges.rule(x, "levy 7;", 0);
+        x = withFirms(2);
+        rule(x, "levy 7;", 0);
         x.months(1);
         due("all are", x.fund(), 14);
         sentence("II: Without: back hours, cap paid");
-        x = Edges.passed("levy 19;");
+        x = passed("levy 19;");
         due("hours are 20, paid is 19", x.claim(0), 19);
-        x = Edges.passed("levy 20;");
+        x = passed("levy 20;");
         due("paid is 20", x.claim(0), 20);
-        x = Edges.passed("levy 21;");
+        x = passed("levy 21;");
         due("paid is 21", x.claim(0), 20);
         sentence("II: Without: stay 0");
-        x = Edges.passed("levy 21;");
+        x = passed("levy 21;");
         due("bound", x.bound(0), 0);
         due("goes", x.go(0, 1), 0);
         sentence("II: Without: proof 6");
-        x = Edges.passed("levy 9000;");
+        x = passed("levy 9000;");
         x.months(5);
         due("6 above LAST", x.claim(0), 20);
-        x = Edges.passed("levy 9000;");
+        x = passed("levy 9000;");
         x.months(6);
         due("7 above LAST", x.claim(0), -3);
         sentence("II: Without: mark 50");
-        x = Edges.withFirms(1);
+        x = withFirms(1);
         x.hand(20, 0, 1000, 0);
         x.hand(20, 0, 1000, 0);
-        Edges.course(x, 0, 0);
+        course(x, 0, 0);
         x.join(0, 0);
         x.join(1, 0);
         x.months(1);

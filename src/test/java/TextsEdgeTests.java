@@ -2,10 +2,7 @@ import java.util.ArrayList;
 import java.util.List;
 
 /** Each sentence of promises 8 to 11, and of part II, that names a boundary case of the tape and of TEXTS. */
-public final class TextsEdgeTests {
-    private static final int NONE = LearningPaid.NONE;
-    private static final int LEAST = Integer.MIN_VALUE;
-    private static final int MOST = Integer.MAX_VALUE;
+public final class TextsEdgeTests extends Edges {
     private static final int BLANKS = 0x20202020;
 
     public static void main(String[] args) {
@@ -27,18 +24,6 @@ public final class TextsEdgeTests {
         ofFirmsAlone();
         firstAndLeast();
         Checks.finish("TextsEdgeTests");
-    }
-
-    private static void sentence(String words) {
-        Edges.sentence(words);
-    }
-
-    private static void due(String call, long got, long want) {
-        Edges.due(call, got, want);
-    }
-
-    private static void due(String call, boolean got, boolean want) {
-        Edges.due(call, got, want);
     }
 
     private static String shown(String text) {
@@ -196,8 +181,8 @@ public final class TextsEdgeTests {
         }
         sentence("II: of up to 300 bytes");
         due("bytes", ("levy " + "1+".repeat(146) + "1 ;").length(), 300);
-        x = Edges.withFirms(1);
-        Edges.rule(x, "levy " + "1+".repeat(146) + "1 ;", 0);
+        x = withFirms(1);
+        rule(x, "levy " + "1+".repeat(146) + "1 ;", 0);
         x.months(1);
         due("all of it counts", x.fund(), 147);
         fault("levy " + "1+".repeat(147) + ";", 1, 299);
@@ -208,7 +193,7 @@ public final class TextsEdgeTests {
 
     private static void eleventhText() {
         sentence("10: NONE: (the tape stays) there are 10");
-        LearningPaid x = Edges.withFirms(1);
+        LearningPaid x = withFirms(1);
         for (int i = 0; i < 9; i++) {
             Checks.text(x, "levy " + i + ";");
         }
@@ -593,6 +578,16 @@ public final class TextsEdgeTests {
         good("member ((((((((1)))))))) = ((((((((1)))))))) or not 1 = -((((((1))))));");
         good("levy ((((((((1))))))));cap ((((((((1))))))));back --------1;stay --------1;");
         fault("levy ((((((((1))))))));cap (((((((((1)))))))));", 3, 35);
+        sentence("II: 3 .. in one TEXT alone");
+        LearningPaid x = new LearningPaid();
+        for (int i = 0; i < 3; i++) {
+            due("too deep", Checks.text(x, "levy " + "(".repeat(12)), NONE);
+            due("too deep", x.fault(0), 3);
+            due("at", x.fault(1), 13);
+            due("not closed", Checks.text(x, "levy ((((1;"), NONE);
+            due("not closed", x.fault(1), 10);
+            due("eight", Checks.text(x, "levy ((((((((1))))))));"), i);
+        }
         sentence("II: - of one ONE: it is open no longer than that ONE");
         good("levy -------(1);");
         fault("levy --------(1);", 3, 13);

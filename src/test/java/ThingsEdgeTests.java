@@ -1,11 +1,7 @@
 import java.util.function.Consumer;
 
 /** Each sentence of promises 1 to 7, and of the terms that they use, that names a boundary case. */
-public final class ThingsEdgeTests {
-    private static final int NONE = LearningPaid.NONE;
-    private static final int LEAST = Integer.MIN_VALUE;
-    private static final int MOST = Integer.MAX_VALUE;
-
+public final class ThingsEdgeTests extends Edges {
     public static void main(String[] args) {
         newObject();
         imageOfNew();
@@ -22,63 +18,47 @@ public final class ThingsEdgeTests {
         Checks.finish("ThingsEdgeTests");
     }
 
-    private static void sentence(String words) {
-        Edges.sentence(words);
-    }
-
-    private static void due(String call, long got, long want) {
-        Edges.due(call, got, want);
-    }
-
-    private static void due(String call, boolean got, boolean want) {
-        Edges.due(call, got, want);
-    }
-
-    private static LearningPaid anew() {
-        return new LearningPaid();
-    }
-
     // ---- Promise 1: A new object ----
 
     private static void newObject() {
         sentence("1: No FIRMS");
-        due("about 1", anew().about(1), 0);
-        due("firm 0 is none", anew().firmOf(0, 0, 0), NONE);
-        due("the first is 0", anew().firm(), 0);
+        due("about 1", new LearningPaid().about(1), 0);
+        due("firm 0 is none", new LearningPaid().firmOf(0, 0, 0), NONE);
+        due("the first is 0", new LearningPaid().firm(), 0);
         sentence("1: No HANDS");
-        due("about 2", anew().about(2), 0);
-        due("hand 0 is none", anew().handOf(0, 0), NONE);
-        due("the first is 0", anew().hand(20, 0, 0, NONE), 0);
+        due("about 2", new LearningPaid().about(2), 0);
+        due("hand 0 is none", new LearningPaid().handOf(0, 0), NONE);
+        due("the first is 0", new LearningPaid().hand(20, 0, 0, NONE), 0);
         sentence("1: No COURSES");
-        due("about 3", anew().about(3), 0);
-        due("course 0 is none", anew().about(10), NONE);
-        due("the first is 0", Edges.course(anew(), 0, 0), 0);
+        due("about 3", new LearningPaid().about(3), 0);
+        due("course 0 is none", new LearningPaid().about(10), NONE);
+        due("the first is 0", course(new LearningPaid(), 0, 0), 0);
         sentence("1: No TEXTS");
-        due("about 4", anew().about(4), 0);
-        due("text 0 is none", anew().tried(0, 0), NONE);
-        due("the first is 0", Checks.text(anew(), "levy 1;"), 0);
+        due("about 4", new LearningPaid().about(4), 0);
+        due("text 0 is none", new LearningPaid().tried(0, 0), NONE);
+        due("the first is 0", Checks.text(new LearningPaid(), "levy 1;"), 0);
         sentence("1: MONTH 0; Terms: the clock is the MONTH that goes by next, at first 0");
-        due("about 0", anew().about(0), 0);
-        due("one goes by", anew().months(1), 1);
-        LearningPaid x = Edges.withFirms(1);
-        Edges.rule(x, "levy 5+month;", 0);
+        due("about 0", new LearningPaid().about(0), 0);
+        due("one goes by", new LearningPaid().months(1), 1);
+        LearningPaid x = withFirms(1);
+        rule(x, "levy 5+month;", 0);
         x.months(1);
         due("month 0 went by", x.fund(), 5);
         x.months(1);
         due("month 1 went by", x.fund(), 5 + 6);
         sentence("A new object: none JOINED, no RULINGS, no tape, no THE FUND, no SHEET, no TEXT read");
         for (int what = 5; what <= 8; what++) {
-            due("about " + what, anew().about(what), 0);
+            due("about " + what, new LearningPaid().about(what), 0);
         }
-        due("fund", anew().fund(), 0);
-        due("joined 0", anew().joined(0, 0), NONE);
+        due("fund", new LearningPaid().fund(), 0);
+        due("joined 0", new LearningPaid().joined(0, 0), NONE);
         for (int sort = 0; sort < 7; sort++) {
-            due("rule of sort " + sort, anew().ruled(sort, 0, 0), NONE);
+            due("rule of sort " + sort, new LearningPaid().ruled(sort, 0, 0), NONE);
         }
-        due("check", anew().check(0), NONE);
-        due("fault", anew().fault(0), NONE);
+        due("check", new LearningPaid().check(0), NONE);
+        due("fault", new LearningPaid().fault(0), NONE);
         for (int trainer = 0; trainer < 8; trainer++) {
-            due("marked by trainer " + trainer, anew().trainer(trainer, 0), 0);
+            due("marked by trainer " + trainer, new LearningPaid().trainer(trainer, 0), 0);
         }
     }
 
@@ -103,7 +83,7 @@ public final class ThingsEdgeTests {
             x.result(1, 8);
             Checks.text(x, "levy 70; stay 30; cap 999;");
             x.ruling(0, 0);
-            Edges.course(x, 0, 0);
+            course(x, 0, 0);
             x.join(0, 0);
             x.join(1, 0);
             x.months(3);
@@ -122,7 +102,7 @@ public final class ThingsEdgeTests {
 
     private static void firm() {
         sentence("2: A FIRM: its number; Terms: FIRMS 0 .. 19");
-        LearningPaid x = anew();
+        LearningPaid x = new LearningPaid();
         for (int i = 0; i < 20; i++) {
             due("firm", x.firm(), i);
             due("firms", x.about(1), i + 1);
@@ -139,7 +119,7 @@ public final class ThingsEdgeTests {
 
     private static void handNumbers() {
         sentence("3: A HAND: its number, NONE if there are 60; Terms: HANDS 0 .. 59");
-        LearningPaid x = anew();
+        LearningPaid x = new LearningPaid();
         for (int i = 0; i < 60; i++) {
             due("hand", x.hand(20, 0, 10, NONE), i);
             due("a refused one has no number", x.hand(13, 0, 10, NONE), NONE);
@@ -151,7 +131,7 @@ public final class ThingsEdgeTests {
     }
 
     private static void handTerms() {
-        LearningPaid x = Edges.withFirms(2);
+        LearningPaid x = withFirms(2);
         sentence("3: NONE for others; Terms: AGE (14 .. 80)");
         due("13", x.hand(13, 0, 10, 0), NONE);
         due("14", x.handOf(x.hand(14, 0, 10, 0), 0), 14);
@@ -184,7 +164,7 @@ public final class ThingsEdgeTests {
         due("most", x.hand(20, 0, 10, MOST), NONE);
         x.firm();
         due("2, which is one now", x.handOf(x.hand(20, 0, 10, 2), 3), 2);
-        due("0 without any", anew().hand(20, 0, 10, 0), NONE);
+        due("0 without any", new LearningPaid().hand(20, 0, 10, 0), NONE);
         due("how many were taken", x.about(2), 10);
     }
 
@@ -193,24 +173,24 @@ public final class ThingsEdgeTests {
     private static void tradeNumbers() {
         sentence("4: False for others; Terms: TRADES 0 .. 7");
         for (int trade = 0; trade < 8; trade++) {
-            LearningPaid x = anew();
+            LearningPaid x = new LearningPaid();
             due("trade " + trade, x.trade(trade, 3, 1, 1), true);
             for (int other = 0; other < 8; other++) {
                 due("of " + other + " with " + trade, x.places(2000, other), other == trade ? 3 : 0);
             }
         }
         for (int trade : new int[] {-1, 8, LEAST, MOST}) {
-            LearningPaid x = anew();
+            LearningPaid x = new LearningPaid();
             due("trade " + trade, x.trade(trade, 3, 1, 1), false);
             due("no place", x.places(2000, NONE), 0);
         }
         sentence("Terms: a LACK (at first 0)");
         for (int trade = 0; trade < 8; trade++) {
-            due("of " + trade, anew().places(2000, trade), 0);
+            due("of " + trade, new LearningPaid().places(2000, trade), 0);
             due("its lack", lackName(trade), 0);
         }
         sentence("4: LACK, COST, WORTH of a TRADE, as told last");
-        LearningPaid x = anew();
+        LearningPaid x = new LearningPaid();
         x.trade(3, 5, 7, 9);
         x.trade(3, 4, 6, 8);
         due("lack", x.places(2000, 3), 4);
@@ -222,8 +202,8 @@ public final class ThingsEdgeTests {
 
     /** What comes back by lack alone for a COURSE of this TRADE, of which nothing was told. */
     private static long lackName(int trade) {
-        LearningPaid x = Edges.withFirms(1);
-        Edges.rule(x, "levy 900; back lack; cap 999;", 0);
+        LearningPaid x = withFirms(1);
+        rule(x, "levy 900; back lack; cap 999;", 0);
         x.hand(20, 0, 10, 0);
         x.course(0, trade, 20, 5, 100, 0, 0, 0, 0);
         x.join(0, 0);
@@ -259,7 +239,7 @@ public final class ThingsEdgeTests {
 
     /** Tells a TRADE this; "False, changing nothing": LACK 3, COST 4, WORTH 5 stay. */
     private static void tried(int lack, int cost, int worth, boolean taken) {
-        LearningPaid x = anew();
+        LearningPaid x = new LearningPaid();
         x.trade(6, 3, 4, 5);
         String call = "trade(6, " + lack + ", " + cost + ", " + worth + ")";
         due(call, x.trade(6, lack, cost, worth), taken);
@@ -274,7 +254,7 @@ public final class ThingsEdgeTests {
     // ---- Promise 5: paper ----
 
     private static LearningPaid withPaper(int paper) {
-        LearningPaid x = Edges.withFirms(1);
+        LearningPaid x = withFirms(1);
         x.hand(20, 0, 10, 0);
         x.course(0, 0, 20, 5, 100, 0, 0, paper, 0);
         x.join(0, 0);
@@ -296,7 +276,7 @@ public final class ThingsEdgeTests {
             }
         }
         for (int paper : new int[] {-1, 8, LEAST, MOST}) {
-            due("paper " + paper, anew().paper(paper, 5), false);
+            due("paper " + paper, new LearningPaid().paper(paper, 5), false);
         }
         sentence("5: False for others; Terms: LIFE (0 .. 120)");
         for (int life : new int[] {LEAST, -1, 121, MOST}) {
@@ -325,7 +305,7 @@ public final class ThingsEdgeTests {
 
     private static void courseNumbers() {
         sentence("6: A COURSE: its number, NONE if there are 24; Terms: COURSES 0 .. 23");
-        LearningPaid x = anew();
+        LearningPaid x = new LearningPaid();
         for (int i = 0; i < 24; i++) {
             due("course", x.course(0, 0, 1, 1 + i % 20, 1, i, i, 0, 0), i);
             due("a refused one has no number", x.course(0, 0, 1, 1, 1, 5, 4, 0, 0), NONE);
@@ -339,7 +319,7 @@ public final class ThingsEdgeTests {
     private static int made(int place, int value) {
         int[] v = {1, 2, 3, 4, 5, 6, 7, 1, 16};
         v[place] = value;
-        LearningPaid x = anew();
+        LearningPaid x = new LearningPaid();
         int made = x.course(v[0], v[1], v[2], v[3], v[4], v[5], v[6], v[7], v[8]);
         due("how many then", x.about(3), made == NONE ? 0 : 1);
         return made;
@@ -365,11 +345,11 @@ public final class ThingsEdgeTests {
         taken("wants 0 .. 255", 8, 0, 255);
         sentence("6: A COURSE: what it was told to be");
         for (int seats = 1; seats <= 20; seats++) {
-            LearningPaid x = anew();
+            LearningPaid x = new LearningPaid();
             x.course(0, 0, 1, seats, 1, 0, 0, 0, 0);
             due("seats", x.about(10), seats);
         }
-        LearningPaid x = Edges.withFirms(1);
+        LearningPaid x = withFirms(1);
         x.hand(20, 0, 160, 0);
         for (int trainer = 0; trainer < 8; trainer++) {
             x.course(trainer, 0, 10 + trainer, 1, 1, trainer, trainer, 7 - trainer, 0);
@@ -377,7 +357,7 @@ public final class ThingsEdgeTests {
             due("trainer", x.joined(trainer, 8), trainer);
             due("hours", x.joined(trainer, 7), 10 + trainer);
         }
-        Edges.go(x, 8);
+        go(x, 8);
         for (int trainer = 0; trainer < 8; trainer++) {
             due("not yet", x.has(0, 7 - trainer, 599), 0);
             x.marked(trainer, 90);
@@ -397,7 +377,7 @@ public final class ThingsEdgeTests {
     }
 
     private static int of(int first, int last) {
-        return anew().course(0, 0, 1, 1, 1, first, last, 0, 0);
+        return new LearningPaid().course(0, 0, 1, 1, 1, first, last, 0, 0);
     }
 
     private static void courseMonths() {
@@ -418,17 +398,17 @@ public final class ThingsEdgeTests {
         due("599, 0", of(599, 0), NONE);
         due("1, 0", of(1, 0), NONE);
         sentence("6: A COURSE, of any MONTHS, whatever the clock is");
-        LearningPaid x = anew();
+        LearningPaid x = new LearningPaid();
         x.months(60);
-        due("gone by", Edges.course(x, 0, 3), 0);
-        due("begun", Edges.course(x, 59, 61), 1);
+        due("gone by", course(x, 0, 3), 0);
+        due("begun", course(x, 59, 61), 1);
     }
 
     // ---- Promise 7: wage ----
 
     private static void wage() {
         sentence("7: False for others; Terms: WAGE (0 .. 5000)");
-        LearningPaid x = Edges.withFirms(1);
+        LearningPaid x = withFirms(1);
         x.hand(20, 0, 10, 0);
         x.hand(20, 0, 11, NONE);
         for (int wage : new int[] {LEAST, -1, 5001, MOST}) {
@@ -448,12 +428,12 @@ public final class ThingsEdgeTests {
         due("hand 2", x.wage(2, 5), false);
         due("least", x.wage(LEAST, 5), false);
         due("most", x.wage(MOST, 5), false);
-        due("without hands", anew().wage(0, 5), false);
+        due("without hands", new LearningPaid().wage(0, 5), false);
         sentence("7: from now on");
-        x = Edges.withFirms(1);
+        x = withFirms(1);
         x.hand(20, 0, 1600, 0);
-        Edges.course(x, 0, 0);
-        Edges.course(x, 2, 2);
+        course(x, 0, 0);
+        course(x, 2, 2);
         x.join(0, 0);
         x.months(1);
         due("levied by 1600", x.fund(), 16);
