@@ -1,4 +1,11 @@
-/** What the tests share: counting wrong answers, and putting a text on the tape. */
+import java.io.IOException;
+import java.nio.file.Files;
+import java.nio.file.Path;
+import java.util.Comparator;
+import java.util.List;
+import java.util.stream.Stream;
+
+/** What the tests share: counting wrong answers, putting a text on the tape, and folders to try things in. */
 final class Checks {
     private static int wrong = 0;
     private static int made = 0;
@@ -43,6 +50,23 @@ final class Checks {
     private static int word(CharSequence text, int i) {
         return (text.charAt(i) & 255) << 24 | (text.charAt(i + 1) & 255) << 16 | (text.charAt(i + 2) & 255) << 8
             | text.charAt(i + 3) & 255;
+    }
+
+    /** Leaves nothing of what an earlier run put there. */
+    static void clear(Path folder) throws IOException {
+        if (Files.exists(folder)) {
+            List<Path> deepestFirst;
+            try (Stream<Path> below = Files.walk(folder)) {
+                deepestFirst = below.sorted(Comparator.reverseOrder()).toList();
+            }
+            for (Path path : deepestFirst) {
+                Files.delete(path);
+            }
+        }
+    }
+
+    static int made() {
+        return made;
     }
 
     static void finish(String tests) {

@@ -1,58 +1,87 @@
+import java.io.IOException;
+import java.nio.charset.StandardCharsets;
+import java.nio.file.Files;
+import java.nio.file.Path;
+import java.util.Set;
+import java.util.TreeSet;
+import java.util.regex.Matcher;
+import java.util.regex.Pattern;
+
 /** At least one test of each promise: ordinary inputs, the edges that the document names, wrong inputs. */
 public final class PromiseTests {
     private static final int NONE = LearningPaid.NONE;
+    private static final Set<Integer> TESTED = new TreeSet<>();
 
-    public static void main(String[] args) {
-        newObject();
-        firm();
-        hand();
-        trade();
-        paper();
-        course();
-        wage();
-        feed();
-        end();
-        text();
-        faults();
-        answersOfClauses();
-        ruling();
-        ruled();
-        go();
-        goOnceAndBehindPassing();
-        stays();
-        join();
-        joinAll();
-        giveUp();
-        marked();
-        claim();
-        claimNames();
-        claimCap();
-        appeal();
-        joined();
-        has();
-        bound();
-        owed();
-        months();
-        levies();
-        firmOf();
-        handOf();
-        trainer();
-        way();
-        wayByHeld();
-        places();
-        proves();
-        result();
-        trial();
-        drawn();
-        tried();
-        sheet();
-        alter();
-        check();
-        image();
-        back();
-        about();
-        fund();
+    public static void main(String[] args) throws IOException {
+        test(1, PromiseTests::newObject);
+        test(2, PromiseTests::firm);
+        test(3, PromiseTests::hand);
+        test(4, PromiseTests::trade);
+        test(5, PromiseTests::paper);
+        test(6, PromiseTests::course);
+        test(7, PromiseTests::wage);
+        test(8, PromiseTests::feed);
+        test(9, PromiseTests::end);
+        test(10, PromiseTests::text);
+        test(10, PromiseTests::answersOfClauses);
+        test(11, PromiseTests::faults);
+        test(12, PromiseTests::ruling);
+        test(13, PromiseTests::ruled);
+        test(14, PromiseTests::go);
+        test(14, PromiseTests::goOnceAndBehindPassing);
+        test(14, PromiseTests::stays);
+        test(15, PromiseTests::join);
+        test(15, PromiseTests::joinAll);
+        test(16, PromiseTests::giveUp);
+        test(17, PromiseTests::marked);
+        test(18, PromiseTests::claim);
+        test(18, PromiseTests::claimNames);
+        test(18, PromiseTests::claimCap);
+        test(19, PromiseTests::appeal);
+        test(20, PromiseTests::joined);
+        test(21, PromiseTests::has);
+        test(22, PromiseTests::bound);
+        test(23, PromiseTests::owed);
+        test(24, PromiseTests::months);
+        test(24, PromiseTests::levies);
+        test(25, PromiseTests::firmOf);
+        test(26, PromiseTests::handOf);
+        test(27, PromiseTests::trainer);
+        test(28, PromiseTests::way);
+        test(28, PromiseTests::wayByHeld);
+        test(29, PromiseTests::places);
+        test(30, PromiseTests::proves);
+        test(31, PromiseTests::result);
+        test(32, PromiseTests::trial);
+        test(33, PromiseTests::drawn);
+        test(34, PromiseTests::tried);
+        test(35, PromiseTests::sheet);
+        test(36, PromiseTests::alter);
+        test(37, PromiseTests::check);
+        test(38, PromiseTests::image);
+        test(39, PromiseTests::back);
+        test(40, PromiseTests::about);
+        test(41, PromiseTests::fund);
+        everyPromise(Path.of(args.length > 0 ? args[0] : "../shared").resolve("DOC.md"));
         Checks.finish("PromiseTests");
+    }
+
+    private static void test(int promise, Runnable tests) {
+        int before = Checks.made();
+        tests.run();
+        if (Checks.made() > before) {
+            TESTED.add(promise);
+        }
+    }
+
+    private static void everyPromise(Path doc) throws IOException {
+        Matcher heading = Pattern.compile("(?m)^## Promise (\\d+): ").matcher(Files.readString(doc, StandardCharsets.UTF_8));
+        int promises = 0;
+        while (heading.find()) {
+            promises++;
+            Checks.isTrue("promise " + heading.group(1) + " has a test", TESTED.contains(Integer.valueOf(heading.group(1))));
+        }
+        due("promises of the document", promises, 41);
     }
 
     private static void due(String call, long got, long want) {
