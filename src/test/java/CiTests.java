@@ -2,8 +2,6 @@ import java.io.IOException;
 import java.nio.charset.StandardCharsets;
 import java.nio.file.Files;
 import java.nio.file.Path;
-import java.util.ArrayList;
-import java.util.List;
 
 /** .ci/run itself: on small projects made for it, it runs every test, and fails if one fails. */
 public final class CiTests {
@@ -15,37 +13,27 @@ public final class CiTests {
     private static final String WRONG = "System.exit(1);";
     private static final String THROWS = "if (true) throw new IllegalStateException(\"as it should be\");";
     private static final String UNREADABLE = "no java";
-
-    private record Case(String name, Process process, Path said) {
-    }
-
-    private static final List<Case> CASES = new ArrayList<>();
-
-    private CiTests() {
-    }
+    private static String tried = "";
+    private static String said = "";
 
     public static void main(String[] args) throws IOException, InterruptedException {
         Checks.clear(SCRATCH);
-        start("good", "", "");
-        start("class", CLASS, UNREADABLE);
-        start("own", OWN + "ATests.java", test("ATests", WRONG));
-        start("ownThrows", OWN + "BTests.java", test("BTests", THROWS));
-        start("ownUnreadable", OWN + "ATests.java", UNREADABLE);
-        start("shared", SHARED + "SharedA.java", test("SharedA", WRONG));
-        start("sharedThrows", SHARED + "deeper/SharedB.java", test("SharedB", THROWS));
-        start("sharedUnreadable", SHARED + "SharedA.java", UNREADABLE);
-        start("noneShared", SHARED, "");
-        for (Case of : CASES) {
-            int exit = of.process.waitFor();
-            Checks.isTrue(".ci/run on " + of.name + " ended with " + exit, (exit == 0) == of.name.equals("good"));
-        }
-        says("good", "ATests ran", "BTests ran", "SharedA ran", "SharedB ran", "4 passed, 0 failed");
-        says("own", "BTests ran", "SharedA ran", "SharedB ran", "failed: ATests", "3 passed, 1 failed");
-        says("ownThrows", "ATests ran", "failed: BTests", "3 passed, 1 failed");
-        says("shared", "SharedB ran", "failed: ../shared/tests/SharedA.java", "3 passed, 1 failed");
-        says("sharedThrows", "SharedA ran", "failed: ../shared/tests/deeper/SharedB.java", "3 passed, 1 failed");
-        says("sharedUnreadable", "SharedB ran", "failed: ../shared/tests/SharedA.java", "3 passed, 1 failed");
-        says("noneShared", "no tests found under ../shared/tests", "2 passed, 1 failed");
+        run("good", "", "");
+        says("ATests ran", "BTests ran", "SharedA ran", "SharedB ran", "4 passed, 0 failed");
+        run("class", CLASS, UNREADABLE);
+        run("own", OWN + "ATests.java", test("ATests", WRONG));
+        says("BTests ran", "SharedA ran", "SharedB ran", "failed: ATests", "3 passed, 1 failed");
+        run("ownThrows", OWN + "BTests.java", test("BTests", THROWS));
+        says("ATests ran", "SharedA ran", "SharedB ran", "failed: BTests", "3 passed, 1 failed");
+        run("ownUnreadable", OWN + "ATests.java", UNREADABLE);
+        run("shared", SHARED + "SharedA.java", test("SharedA", WRONG));
+        says("SharedB ran", "failed: ../shared/tests/SharedA.java", "3 passed, 1 failed");
+        run("sharedThrows", SHARED + "deeper/SharedB.java", test("SharedB", THROWS));
+        says("SharedA ran", "failed: ../shared/tests/deeper/SharedB.java", "3 passed, 1 failed");
+        run("sharedUnreadable", SHARED + "SharedA.java", UNREADABLE);
+        says("SharedB ran", "failed: ../shared/tests/SharedA.java", "3 passed, 1 failed");
+        run("noneShared", SHARED, "");
+        says("no tests found under ../shared/tests", "2 passed, 1 failed");
         Checks.finish("CiTests");
     }
 
@@ -60,34 +48,33 @@ public final class CiTests {
         Files.writeString(path, text, StandardCharsets.UTF_8);
     }
 
-    /** A project with two tests of its own and two shared ones, all good but for this file; a folder is left out. */
-    private static void start(String name, String file, String text) throws IOException {
+    /** A project with two tests of its own and two shared ones, all good but for this file; a folder is left empty. */
+    private static void run(String name, String file, String text) throws IOException, InterruptedException {
         Path folder = SCRATCH.resolve(name);
         put(folder, CLASS, "public final class LearningPaid { public static final int NONE = -1; }");
         put(folder, OWN + "ATests.java", test("ATests", GOOD));
         put(folder, OWN + "BTests.java", test("BTests", GOOD));
+        Files.createDirectories(folder.resolve(SHARED));
         if (!file.equals(SHARED)) {
             put(folder, SHARED + "SharedA.java", test("SharedA", GOOD));
             put(folder, SHARED + "deeper/SharedB.java", test("SharedB", GOOD));
         }
-        Files.createDirectories(folder.resolve(SHARED));
         if (!text.isEmpty()) {
             put(folder, file, text);
         }
         put(folder, "project/.ci/run", Files.readString(Path.of(".ci/run"), StandardCharsets.UTF_8));
-        Path said = folder.resolve("said.txt");
-        CASES.add(new Case(name, new ProcessBuilder("sh", folder.resolve("project/.ci/run").toAbsolutePath().toString())
-            .redirectErrorStream(true).redirectOutput(said.toFile()).start(), said));
+        Path told = folder.resolve("said.txt");
+        Process run = new ProcessBuilder("sh", folder.resolve("project/.ci/run").toAbsolutePath().toString())
+            .redirectErrorStream(true).redirectOutput(told.toFile()).start();
+        int exit = run.waitFor();
+        tried = name;
+        said = Files.readString(told, StandardCharsets.UTF_8);
+        Checks.isTrue(".ci/run on " + name + " ended with " + exit, (exit == 0) == name.equals("good"));
     }
 
-    private static void says(String name, String... due) throws IOException {
-        for (Case of : CASES) {
-            if (of.name.equals(name)) {
-                String said = Files.readString(of.said, StandardCharsets.UTF_8);
-                for (String words : due) {
-                    Checks.isTrue(".ci/run on " + name + " says <" + words + ">, but it said\n" + said, said.contains(words));
-                }
-            }
+    private static void says(String... due) {
+        for (String words : due) {
+            Checks.isTrue(".ci/run on " + tried + " says <" + words + ">, but it said\n" + said, said.contains(words));
         }
     }
 }
